@@ -201,7 +201,14 @@ public final class CrossbarHouse {
         if (!told.has(CROSSBARS, crossbar) || !told.has(TRAFFICS, traffic) || !told.has(LOGS, log)) {
             return NOT_THERE;
         }
-        fitting.gather(told, crossbar, traffic, log, run);
+        fitting.begin(told.bar(crossbar, BAR_PORTS));
+        for (int rounds = 1; rounds <= ROUNDS_MOST; rounds++) {
+            for (int pointer = 0; pointer < fitting.ports; pointer++) {
+                run.begin(told, crossbar, rounds, pointer);
+                run.follow(told, traffic, DEEDS_MOST);
+                fitting.keepIfSo(told, log, 10 * rounds + pointer, run.past);
+            }
+        }
         return fitting.tell(what);
     }
 
@@ -265,15 +272,12 @@ public final class CrossbarHouse {
 
     /** The first member of a set of numbers below size, from one of them on, behind the last 0 again. */
     private static int firstFrom(int set, int from, int size) {
-        for (int k = from; k < size; k++) {
-            if (holds(set, k)) {
-                return k;
+        int at = from;
+        for (int k = 0; k < size; k++) {
+            if ((set >> at & 1) != 0) {
+                return at;
             }
-        }
-        for (int k = 0; k < from && k < size; k++) {
-            if (holds(set, k)) {
-                return k;
-            }
+            at = at + 1 >= size ? 0 : at + 1;
         }
         return NONE;
     }
@@ -674,8 +678,6 @@ public final class CrossbarHouse {
         final int[] couldFirst = new int[CAME_MOST];
         final int[] went = new int[CAME_MOST];
         final boolean[] isLost = new boolean[CAME_MOST];
-        /** Of a FAN the OUTPUTS (bits) that it was not yet sent to. */
-        final int[] left = new int[CAME_MOST];
         /** Of a FAN in how many SLOTS it was sent. */
         final int[] sendings = new int[CAME_MOST];
 
@@ -691,7 +693,6 @@ public final class CrossbarHouse {
             couldFirst[k] = slot;
             went[k] = NONE;
             isLost[k] = lost;
-            left[k] = to;
             sendings[k] = 0;
             size++;
             return k;
@@ -775,6 +776,8 @@ public final class CrossbarHouse {
         private final int[] cellRows = new int[PAIRS_MOST * DEPTH_MOST];
         final int[] fansIn = new int[PORTS_MOST];
         private final int[] fanRows = new int[PORTS_MOST * DEPTH_MOST];
+        /** Of each INPUT the OUTPUTS (bits) that are LEFT of its HEAD; only a HEAD is ever sent. */
+        private final int[] headLeft = new int[PORTS_MOST];
         private int drawX;
 
         void begin(Told told, int crossbar) {
@@ -797,6 +800,7 @@ public final class CrossbarHouse {
                 shutOf[p] = 0;
                 takenBy[p] = NONE;
                 fansIn[p] = 0;
+                headLeft[p] = 0;
             }
             for (int q = 0; q < PAIRS_MOST; q++) {
                 cellsIn[q] = 0;
@@ -868,6 +872,9 @@ public final class CrossbarHouse {
                 lost++;
                 return;
             }
+            if (fansIn[i] == 0) {
+                headLeft[i] = outputs;
+            }
             fanRows[i * DEPTH_MOST + fansIn[i]] = number;
             fansIn[i]++;
         }
@@ -922,13 +929,13 @@ public final class CrossbarHouse {
             int served = mostApart(heads);
             for (int i = 0; i < ports; i++) {
                 if (holds(served, i)) {
-                    sendFan(i, leftOf(i));
+                    sendFan(i, headLeft[i]);
                 }
             }
             for (int o = 0; o < ports; o++) {
                 boolean isFree = holds(matcher.freeOutputs, o);
                 for (int i = 0; i < ports && isFree; i++) {
-                    if (holds(leftOf(i), o)) {
+                    if (holds(headLeft[i], o)) {
                         sendFan(i, 1 << o);
                         isFree = false;
                     }
@@ -955,22 +962,17 @@ public final class CrossbarHouse {
         private boolean areApart(int set) {
             int wanted = 0;
             for (int i = 0; i < ports; i++) {
-                if (holds(set, i)) {
-                    if ((wanted & leftOf(i)) != 0) {
-                        return false;
-                    }
-                    wanted |= leftOf(i);
+                int left = (set >> i & 1) != 0 ? headLeft[i] : 0;
+                if ((wanted & left) != 0) {
+                    return false;
                 }
+                wanted |= left;
             }
             return true;
         }
 
-        private int leftOf(int i) {
-            return fansIn[i] == 0 ? 0 : came.left[fanRows[i * DEPTH_MOST]];
-        }
-
         private void sendFan(int i, int outputs) {
-            came.left[fanRows[i * DEPTH_MOST]] &= ~outputs;
+            headLeft[i] &= ~outputs;
             matcher.freeInputs &= ~(1 << i);
             matcher.freeOutputs &= ~outputs;
             for (int o = 0; o < ports; o++) {
@@ -984,11 +986,12 @@ public final class CrossbarHouse {
         private void endSending(int i) {
             int head = fanRows[i * DEPTH_MOST];
             came.sendings[head]++;
-            if (came.left[head] == 0) {
+            if (headLeft[i] == 0) {
                 came.went[head] = past.slots;
                 fansWent++;
                 fansIn[i]--;
                 moveUp(fanRows, i * DEPTH_MOST, fansIn[i]);
+                headLeft[i] = fansIn[i] == 0 ? 0 : came.outputs[fanRows[i * DEPTH_MOST]];
             }
         }
 
@@ -1047,7 +1050,7 @@ public final class CrossbarHouse {
                 case 1: return matcher.accept[at];
                 case 2: return matcher.grant[at];
                 case 3: return fansIn[at];
-                case 4: return leftOf(at);
+                case 4: return headLeft[at];
                 case 5: return shutOf[at];
                 case 6: return matcher.matched[at];
                 case 7: return takenBy[at];
@@ -1699,8 +1702,8 @@ public final class CrossbarHouse {
 
     /** The ROUNDS and POINTERS by which a LOG can be. */
     static final class Fitting {
+        int ports;
         private int size;
-        private int ports;
         private int slots;
         /** Those that FIT, rising, each 10 times the ROUNDS, and the POINTER. */
         private final int[] fitting = new int[FITS_MOST];
@@ -1708,18 +1711,20 @@ public final class CrossbarHouse {
         private final int[] pairs = new int[FITS_MOST * SLOTS_MOST];
         private final int[] tally = new int[PORTS_MOST + 1];
 
-        void gather(Told told, int crossbar, int traffic, int log, Run run) {
+        void begin(int portsNow) {
             size = 0;
-            ports = told.bar(crossbar, BAR_PORTS);
-            for (int rounds = 1; rounds <= ROUNDS_MOST; rounds++) {
-                for (int pointer = 0; pointer < ports; pointer++) {
-                    run.begin(told, crossbar, rounds, pointer);
-                    run.follow(told, traffic, DEEDS_MOST);
-                    if (allSo(told, log, run.past)) {
-                        keep(10 * rounds + pointer, run.past);
-                    }
-                }
+            slots = 0;
+            ports = portsNow;
+        }
+
+        void keepIfSo(Told told, int log, int fit, Past past) {
+            if (size >= FITS_MOST || !allSo(told, log, past)) {
+                return;
             }
+            slots = past.slots;
+            fitting[size] = fit;
+            System.arraycopy(past.pairs, 0, pairs, size * SLOTS_MOST, slots);
+            size++;
         }
 
         private static boolean allSo(Told told, int log, Past past) {
@@ -1734,16 +1739,6 @@ public final class CrossbarHouse {
                 }
             }
             return true;
-        }
-
-        private void keep(int fit, Past past) {
-            if (size >= FITS_MOST) {
-                return;
-            }
-            slots = past.slots;
-            fitting[size] = fit;
-            System.arraycopy(past.pairs, 0, pairs, size * SLOTS_MOST, slots);
-            size++;
         }
 
         int tell(int what) {
