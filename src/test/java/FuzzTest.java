@@ -21,7 +21,13 @@ public final class FuzzTest {
         int runs = args.length > 0 ? Integer.parseInt(args[0]) : RUNS;
         for (int seed = 0; seed < runs && wrong < 5; seed++) {
             FuzzTest test = new FuzzTest(seed);
-            test.run();
+            if (seed % 4 == 1) {
+                test.runShadow();
+            } else if (seed % 4 == 3) {
+                test.runFits();
+            } else {
+                test.run();
+            }
             if (test.wrong > 0) {
                 System.out.println("FuzzTest, seed " + seed + ":\n" + test.told);
             }
@@ -45,6 +51,49 @@ public final class FuzzTest {
             } else {
                 ask();
             }
+        }
+    }
+
+    /** Nothing but CELLS, for few OUTPUTS, so that rows grow long: each CELL by both SPEEDS. */
+    private void runShadow() {
+        int ports = 2 + below(5);
+        tell(0, -1, "ports " + ports + ";");
+        for (int n = 0; n < 4; n++) {
+            StringBuilder traffic = new StringBuilder();
+            int arrived = 0;
+            int narrow = 1 + below(ports);
+            for (int k = 0; k < 40; k++) {
+                int i = below(ports);
+                boolean isSlot = (arrived >> i & 1) != 0 && below(3) == 0;
+                for (int j = 0; j < ports && (arrived >> i & 1) != 0; j++) {
+                    i = (i + 1) % ports;
+                }
+                isSlot |= (arrived >> i & 1) != 0;
+                traffic.append(isSlot ? "slot;" : "cell " + i + " " + below(narrow) + ";");
+                arrived = isSlot ? 0 : arrived | 1 << i;
+            }
+            tell(1, n == 0 ? -1 : 0, traffic.toString());
+            for (int k = -1; k < 40; k++) {
+                for (int what = 0; what < 3; what++) {
+                    due("mimic " + k + " " + what, house.mimic(0, 0, k, what), model.mimic(0, 0, k, what));
+                }
+            }
+        }
+    }
+
+    /** All that fits() tells, of many LOGS. */
+    private void runFits() {
+        tell(0, -1, bar() + (below(2) == 0 ? "ports 6;" : ""));
+        tell(1, -1, traffic());
+        for (int n = 0; n < 8; n++) {
+            tell(2, n == 0 ? -1 : 0, n == 0 ? "" : log());
+            for (int what = 0; what < 37; what++) {
+                due("fits " + what, house.fits(0, 0, 0, what), model.fits(0, 0, 0, what));
+            }
+            for (int what = 0; what < 17; what++) {
+                due("after " + what, house.after(0, 0, what), model.after(0, 0, what));
+            }
+            tell(1, 0, traffic());
         }
     }
 

@@ -455,8 +455,12 @@ final class Model {
     }
 
     private int stopOf(int[] bar, int t) {
+        Sim s = new Sim(bar);
         int n = 0;
-        while (sim(bar, t, n + 1) != null) {
+        for (int[] deed : traffics.get(t)) {
+            if (!s.act(deed)) {
+                return n;
+            }
             n++;
         }
         return n;

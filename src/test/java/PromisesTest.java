@@ -192,6 +192,8 @@ public final class PromisesTest {
         faulty(0, " 3;", 1, 1);
         faulty(0, "port 3;", 1, 0);
         faulty(0, "portss 3;", 1, 0);
+        faulty(0, "portsz 3;", 1, 0);
+        faulty(0, "portsa 3;", 1, 0);
         faulty(0, "Ports 3;", 1, 0);
         faulty(0, "ports 3;;", 1, 8);
         faulty(0, "ports 3 3;", 1, 8);
@@ -563,6 +565,15 @@ public final class PromisesTest {
             seen += due.house.mimic(0, 0, NONE, 1) > 0 ? 1 : 0;
         }
         due.same("some are late by 1", seen > 20, true);
+        // here one would be, if CELLS at other OUTPUTS were counted, or if new CELLS went to the end of a row
+        String[] hard = {
+            "ports 6;", "cell 5 0;cell 0 0;cell 2 0;cell 1 3;cell 3 0;slot;cell 4 2;cell 5 2;slot;cell 5 0;",
+            "ports 3;", "cell 1 0;cell 0 0;cell 2 0;slot;cell 0 0;cell 1 0;cell 2 0;slot;cell 2 2;cell 0 2;cell 1 0;slot;cell 2 1;",
+            "ports 4;", "cell 3 0;cell 0 0;cell 1 0;slot;cell 3 1;slot;"};
+        for (int k = 0; k < hard.length; k += 2) {
+            due.fresh(hard[k], hard[k + 1]);
+            due.same("late by 2", due.house.mimic(0, 0, NONE, 2), 0);
+        }
     }
 
     private static void promise15() {
@@ -678,6 +689,11 @@ public final class PromisesTest {
         fits(0, 0);
         fresh("ports 2;", "cell 0 0;slot;", "apart 0 2 0;apart 0 0 2;apart 1 0 0;match 0 0 0;");
         fits(0, 8, 3, 0);
+        // a SLOT that was not, though there was one in the TRAFFIC before
+        fresh("ports 2;", "cell 0 0;slot;cell 0 0;slot;", "match 1 0 0;");
+        fits(0, 8);
+        due.tell(1, 0, "cell 0 0;slot;cell 0 0;");
+        fits(0, 0);
         // by ROUNDS 1 SLOT 0 matches one pair, by more two: 2, 6 of 8 at OUTPUT 0, none or one pair
         fresh("ports 2;", "burst 0 3;burst 1 3;slot;slot;", "");
         fits(0, 8, 3, 0);
