@@ -1,12 +1,20 @@
 /** A house, texts fed to it as whole strings, and a count of the answers that are not as due. */
 final class Due {
+    static final int NONE = CrossbarHouse.NONE;
+
     private final String test;
+    private final boolean isLoud;
     CrossbarHouse house = new CrossbarHouse();
     private String about = "";
     private int wrong = 0;
 
     Due(String test) {
+        this(test, true);
+    }
+
+    Due(String test, boolean isLoud) {
         this.test = test;
+        this.isLoud = isLoud;
     }
 
     void fresh(String what) {
@@ -17,12 +25,18 @@ final class Due {
     void same(String call, long got, long want) {
         if (got != want) {
             wrong++;
-            System.out.println(test + ", " + about + ": " + call + " answered " + got + ", due is " + want);
+            if (isLoud) {
+                System.out.println(test + ", " + about + ": " + call + " answered " + got + ", due is " + want);
+            }
         }
     }
 
     void same(String call, boolean got, boolean want) {
         same(call, got ? 1 : 0, want ? 1 : 0);
+    }
+
+    int wrong() {
+        return wrong;
     }
 
     /** The tape is the text, whatever it was. */
@@ -46,8 +60,91 @@ final class Due {
     /** A fresh house with a CROSSBAR 0 and a TRAFFIC 0. */
     void fresh(String bar, String traffic) {
         fresh(bar + " | " + traffic);
-        same("text of crossbar", tell(0, CrossbarHouse.NONE, bar), 0);
-        same("text of traffic", tell(1, CrossbarHouse.NONE, traffic), 0);
+        same("text of crossbar", tell(0, NONE, bar), 0);
+        same("text of traffic", tell(1, NONE, traffic), 0);
+    }
+
+    /** A fresh house with a CROSSBAR 0, a TRAFFIC 0 and a LOG 0. */
+    void fresh(String bar, String traffic, String log) {
+        fresh(bar, traffic);
+        same("text of log", tell(2, NONE, log), 0);
+    }
+
+    /** A text to a fresh house, with its FAULT (0 for none) and the FAULT's place. */
+    void faulty(int sort, String text, int fault, int place) {
+        fresh("fault of '" + text + "'");
+        same("text", tell(sort, NONE, text), fault == 0 ? 0 : NONE);
+        same("fault(0)", house.fault(0), fault);
+        same("fault(1)", house.fault(1), place);
+        same("count", house.count(sort), fault == 0 ? 1 : 0);
+    }
+
+    void right(int sort, String text) {
+        faulty(sort, text, 0, NONE);
+    }
+
+    void stops(String bar, String traffic, int stop) {
+        fresh(bar, traffic);
+        same("stop", house.stop(0, 0), stop);
+    }
+
+    void state(int n, int... whatsAndAnswers) {
+        for (int k = 0; k < whatsAndAnswers.length; k += 2) {
+            int what = whatsAndAnswers[k];
+            same("state(0, 0, " + n + ", " + what + ")", house.state(0, 0, n, what), whatsAndAnswers[k + 1]);
+        }
+    }
+
+    void after(int... whatsAndAnswers) {
+        for (int k = 0; k < whatsAndAnswers.length; k += 2) {
+            int what = whatsAndAnswers[k];
+            same("after(0, 0, " + what + ")", house.after(0, 0, what), whatsAndAnswers[k + 1]);
+        }
+    }
+
+    void judge(int n, int... whatsAndAnswers) {
+        for (int k = 0; k < whatsAndAnswers.length; k += 2) {
+            int what = whatsAndAnswers[k];
+            same("judge(0, 0, " + n + ", " + what + ")", house.judge(0, 0, n, what), whatsAndAnswers[k + 1]);
+        }
+    }
+
+    void fits(int... whatsAndAnswers) {
+        for (int k = 0; k < whatsAndAnswers.length; k += 2) {
+            int what = whatsAndAnswers[k];
+            same("fits(0, 0, 0, " + what + ")", house.fits(0, 0, 0, what), whatsAndAnswers[k + 1]);
+        }
+    }
+
+    void cell(int k, int... answers) {
+        for (int what = 0; what < answers.length; what++) {
+            same("cell(0, 0, " + k + ", " + what + ")", house.cell(0, 0, k, what), answers[what]);
+        }
+    }
+
+    void mimic(int k, int... answers) {
+        for (int what = 0; what < answers.length; what++) {
+            same("mimic(0, 0, " + k + ", " + what + ")", house.mimic(0, 0, k, what), answers[what]);
+        }
+    }
+
+    void flow(int k, int... answers) {
+        for (int what = 0; what < answers.length; what++) {
+            same("flow(0, 0, " + k + ", " + what + ")", house.flow(0, 0, k, what), answers[what]);
+        }
+    }
+
+    void full(int slot, int... inputs) {
+        for (int o = 0; o < inputs.length; o++) {
+            same("full(0, " + slot + ", " + o + ")", house.full(0, slot, o), inputs[o]);
+        }
+    }
+
+    void rhythm(String bar, int... answers) {
+        fresh(bar, "");
+        for (int what = 0; what < answers.length; what++) {
+            same("rhythm(0, " + what + ")", house.rhythm(0, what), answers[what]);
+        }
     }
 
     void end() {

@@ -35,64 +35,6 @@ public final class PromisesTest {
         due.end();
     }
 
-    private static String many(String part, int n) {
-        return part.repeat(n);
-    }
-
-    private static void state(int n, int... whatsAndAnswers) {
-        for (int k = 0; k < whatsAndAnswers.length; k += 2) {
-            int what = whatsAndAnswers[k];
-            due.same("state(0, 0, " + n + ", " + what + ")", due.house.state(0, 0, n, what), whatsAndAnswers[k + 1]);
-        }
-    }
-
-    private static void after(int... whatsAndAnswers) {
-        for (int k = 0; k < whatsAndAnswers.length; k += 2) {
-            int what = whatsAndAnswers[k];
-            due.same("after(0, 0, " + what + ")", due.house.after(0, 0, what), whatsAndAnswers[k + 1]);
-        }
-    }
-
-    private static void judge(int n, int... whatsAndAnswers) {
-        for (int k = 0; k < whatsAndAnswers.length; k += 2) {
-            int what = whatsAndAnswers[k];
-            due.same("judge(0, 0, " + n + ", " + what + ")", due.house.judge(0, 0, n, what), whatsAndAnswers[k + 1]);
-        }
-    }
-
-    private static void cell(int k, int... answers) {
-        for (int what = 0; what < answers.length; what++) {
-            due.same("cell(0, 0, " + k + ", " + what + ")", due.house.cell(0, 0, k, what), answers[what]);
-        }
-    }
-
-    private static void mimic(int k, int... answers) {
-        for (int what = 0; what < answers.length; what++) {
-            due.same("mimic(0, 0, " + k + ", " + what + ")", due.house.mimic(0, 0, k, what), answers[what]);
-        }
-    }
-
-    private static void flow(int k, int... answers) {
-        for (int what = 0; what < answers.length; what++) {
-            due.same("flow(0, 0, " + k + ", " + what + ")", due.house.flow(0, 0, k, what), answers[what]);
-        }
-    }
-
-    private static void fits(int... whatsAndAnswers) {
-        for (int k = 0; k < whatsAndAnswers.length; k += 2) {
-            int what = whatsAndAnswers[k];
-            due.same("fits(0, 0, 0, " + what + ")", due.house.fits(0, 0, 0, what), whatsAndAnswers[k + 1]);
-        }
-    }
-
-    private static void faulty(int sort, String text, int fault, int place) {
-        due.fresh("fault of '" + text + "'");
-        due.same("text", due.tell(sort, NONE, text), fault == 0 ? 0 : NONE);
-        due.same("fault(0)", due.house.fault(0), fault);
-        due.same("fault(1)", due.house.fault(1), place);
-        due.same("count", due.house.count(sort), fault == 0 ? 1 : 0);
-    }
-
     private static void promise1() {
         due.fresh("promise 1");
         for (int sort = 0; sort < 3; sort++) {
@@ -181,58 +123,58 @@ public final class PromisesTest {
     }
 
     private static void promise5() {
-        faulty(0, "", 0, NONE);
-        faulty(0, "ports 06;rounds 4;depth 1;pointer 0;", 0, NONE);
-        faulty(0, "ports1;\n\nrounds\n2 ; ", 0, NONE);
-        faulty(0, "ports 3", 1, 7);
-        faulty(0, "ports 3  ", 1, 9);
-        faulty(0, "ports", 1, 5);
-        faulty(0, "ports ;", 1, 6);
-        faulty(0, ";", 1, 0);
-        faulty(0, " 3;", 1, 1);
-        faulty(0, "port 3;", 1, 0);
-        faulty(0, "portss 3;", 1, 0);
-        faulty(0, "portsz 3;", 1, 0);
-        faulty(0, "portsa 3;", 1, 0);
-        faulty(0, "Ports 3;", 1, 0);
-        faulty(0, "ports 3;;", 1, 8);
-        faulty(0, "ports 3 3;", 1, 8);
-        faulty(0, "ports 003;", 1, 6);
-        faulty(0, "ports 3\t;", 1, 7);
-        faulty(0, "ports 3;slot;", 1, 8);
-        faulty(0, "ports -3;", 1, 6);
-        faulty(0, "ports 3;" + (char) 233, 1, 8);
-        faulty(0, "ports 9;rounds 3", 1, 16);
-        faulty(0, "ports 0;", 2, 6);
-        faulty(0, "ports 7;", 2, 6);
-        faulty(0, "rounds 0;", 2, 7);
-        faulty(0, "rounds 5;", 2, 7);
-        faulty(0, "depth 0;", 2, 6);
-        faulty(0, "depth 10;", 2, 6);
-        faulty(0, "pointer 6;", 2, 8);
-        faulty(0, "ports 7;rounds 9;ports 2;", 2, 6);
-        faulty(1, "slot;idle 1;cell 0 5;fan 5 63;burst 0 1;idle 9;", 0, NONE);
-        faulty(1, "slot 1;", 1, 5);
-        faulty(1, "cell 0;", 1, 6);
-        faulty(1, "cell 0 1 2;", 1, 9);
-        faulty(1, "match 0 0 0;", 1, 0);
-        faulty(1, "idle;", 1, 4);
-        faulty(1, "idle 0;", 2, 5);
-        faulty(1, "idle 10;", 2, 5);
-        faulty(1, "cell 6 6;", 2, 5);
-        faulty(1, "cell 5 6;", 2, 7);
-        faulty(1, "fan 6 1;", 2, 4);
-        faulty(1, "fan 0 0;", 2, 6);
-        faulty(1, "fan 0 64;", 2, 6);
-        faulty(1, "burst 6 1;", 2, 6);
-        faulty(1, "burst 0 0;", 2, 8);
-        faulty(1, "burst 0 99;", 2, 8);
-        faulty(2, "match 60 5 5;apart 0 0 0;", 0, NONE);
-        faulty(2, "match 61 0 0;", 2, 6);
-        faulty(2, "match 0 6 0;", 2, 8);
-        faulty(2, "apart 0 0 6;", 2, 10);
-        faulty(2, "apart 0 0;", 1, 9);
-        faulty(2, "apart 100 0 0;", 1, 6);
+        due.faulty(0, "", 0, NONE);
+        due.faulty(0, "ports 06;rounds 4;depth 1;pointer 0;", 0, NONE);
+        due.faulty(0, "ports1;\n\nrounds\n2 ; ", 0, NONE);
+        due.faulty(0, "ports 3", 1, 7);
+        due.faulty(0, "ports 3  ", 1, 9);
+        due.faulty(0, "ports", 1, 5);
+        due.faulty(0, "ports ;", 1, 6);
+        due.faulty(0, ";", 1, 0);
+        due.faulty(0, " 3;", 1, 1);
+        due.faulty(0, "port 3;", 1, 0);
+        due.faulty(0, "portss 3;", 1, 0);
+        due.faulty(0, "portsz 3;", 1, 0);
+        due.faulty(0, "portsa 3;", 1, 0);
+        due.faulty(0, "Ports 3;", 1, 0);
+        due.faulty(0, "ports 3;;", 1, 8);
+        due.faulty(0, "ports 3 3;", 1, 8);
+        due.faulty(0, "ports 003;", 1, 6);
+        due.faulty(0, "ports 3\t;", 1, 7);
+        due.faulty(0, "ports 3;slot;", 1, 8);
+        due.faulty(0, "ports -3;", 1, 6);
+        due.faulty(0, "ports 3;" + (char) 233, 1, 8);
+        due.faulty(0, "ports 9;rounds 3", 1, 16);
+        due.faulty(0, "ports 0;", 2, 6);
+        due.faulty(0, "ports 7;", 2, 6);
+        due.faulty(0, "rounds 0;", 2, 7);
+        due.faulty(0, "rounds 5;", 2, 7);
+        due.faulty(0, "depth 0;", 2, 6);
+        due.faulty(0, "depth 10;", 2, 6);
+        due.faulty(0, "pointer 6;", 2, 8);
+        due.faulty(0, "ports 7;rounds 9;ports 2;", 2, 6);
+        due.faulty(1, "slot;idle 1;cell 0 5;fan 5 63;burst 0 1;idle 9;", 0, NONE);
+        due.faulty(1, "slot 1;", 1, 5);
+        due.faulty(1, "cell 0;", 1, 6);
+        due.faulty(1, "cell 0 1 2;", 1, 9);
+        due.faulty(1, "match 0 0 0;", 1, 0);
+        due.faulty(1, "idle;", 1, 4);
+        due.faulty(1, "idle 0;", 2, 5);
+        due.faulty(1, "idle 10;", 2, 5);
+        due.faulty(1, "cell 6 6;", 2, 5);
+        due.faulty(1, "cell 5 6;", 2, 7);
+        due.faulty(1, "fan 6 1;", 2, 4);
+        due.faulty(1, "fan 0 0;", 2, 6);
+        due.faulty(1, "fan 0 64;", 2, 6);
+        due.faulty(1, "burst 6 1;", 2, 6);
+        due.faulty(1, "burst 0 0;", 2, 8);
+        due.faulty(1, "burst 0 99;", 2, 8);
+        due.faulty(2, "match 60 5 5;apart 0 0 0;", 0, NONE);
+        due.faulty(2, "match 61 0 0;", 2, 6);
+        due.faulty(2, "match 0 6 0;", 2, 8);
+        due.faulty(2, "apart 0 0 6;", 2, 10);
+        due.faulty(2, "apart 0 0;", 1, 9);
+        due.faulty(2, "apart 100 0 0;", 1, 6);
         for (int what : WRONG) {
             due.same("fault(" + what + ")", due.house.fault(what), NONE);
         }
@@ -243,19 +185,19 @@ public final class PromisesTest {
     }
 
     private static void promise5Limits() {
-        faulty(1, many("slot;", 40), 0, NONE);
-        faulty(1, many("slot;", 41), 3, 200);
-        faulty(1, many("slot;", 40) + " idle 0;", 3, 201);
-        faulty(1, many("slot;", 39) + "idle 0;slot;", 2, 200);
-        faulty(1, "idle 0;" + many("slot;", 39), 2, 5);
-        faulty(1, "slot;idle 0;" + many("slot;", 39), 2, 10);
-        faulty(1, many("slot;", 41) + "x", 1, 205);
-        faulty(1, many("slot;", 120), 3, 200);
-        faulty(2, many("match 0 0 0;", 8), 0, NONE);
-        faulty(2, many("match 0 0 0;", 9), 3, 96);
-        faulty(2, many("match 0 0 0;", 8) + "match 99 0 0;", 3, 96);
-        faulty(2, many("match 0 0 0;", 9) + "match", 1, 113);
-        faulty(0, many("ports 2;", 75), 0, NONE);
+        due.faulty(1, "slot;".repeat(40), 0, NONE);
+        due.faulty(1, "slot;".repeat(41), 3, 200);
+        due.faulty(1, "slot;".repeat(40) + " idle 0;", 3, 201);
+        due.faulty(1, "slot;".repeat(39) + "idle 0;slot;", 2, 200);
+        due.faulty(1, "idle 0;" + "slot;".repeat(39), 2, 5);
+        due.faulty(1, "slot;idle 0;" + "slot;".repeat(39), 2, 10);
+        due.faulty(1, "slot;".repeat(41) + "x", 1, 205);
+        due.faulty(1, "slot;".repeat(120), 3, 200);
+        due.faulty(2, "match 0 0 0;".repeat(8), 0, NONE);
+        due.faulty(2, "match 0 0 0;".repeat(9), 3, 96);
+        due.faulty(2, "match 0 0 0;".repeat(8) + "match 99 0 0;", 3, 96);
+        due.faulty(2, "match 0 0 0;".repeat(9) + "match", 1, 113);
+        due.faulty(0, "ports 2;".repeat(75), 0, NONE);
     }
 
     private static void promise6() {
@@ -297,25 +239,20 @@ public final class PromisesTest {
         }
     }
 
-    private static void stops(String bar, String traffic, int stop) {
-        due.fresh(bar, traffic);
-        due.same("stop", due.house.stop(0, 0), stop);
-    }
-
     private static void promise8() {
-        stops("", "", 0);
-        stops("", "slot;idle 9;", 2);
-        stops("", "cell 0 1;cell 0 2;", 1);
-        stops("", "cell 4 0;", 0);
-        stops("", "cell 3 3;cell 2 4;", 1);
-        stops("", "slot;fan 0 16;", 1);
-        stops("", "fan 0 15;burst 1 17;", 1);
-        stops("", "fan 4 1;", 0);
-        stops("", "burst 0 15;fan 0 1;slot;", 1);
-        stops("", "cell 0 0;slot;cell 0 0;idle 2;fan 0 1;burst 0 1;", 5);
-        stops("ports 1;", "cell 0 0;slot;fan 0 1;slot;fan 0 2;slot;", 4);
-        stops("depth 1;ports 2;", "cell 0 0;cell 1 0;slot;cell 1 0;cell 1 1;", 4);
-        stops("ports 6;", "cell 5 5;fan 4 63;", 2);
+        due.stops("", "", 0);
+        due.stops("", "slot;idle 9;", 2);
+        due.stops("", "cell 0 1;cell 0 2;", 1);
+        due.stops("", "cell 4 0;", 0);
+        due.stops("", "cell 3 3;cell 2 4;", 1);
+        due.stops("", "slot;fan 0 16;", 1);
+        due.stops("", "fan 0 15;burst 1 17;", 1);
+        due.stops("", "fan 4 1;", 0);
+        due.stops("", "burst 0 15;fan 0 1;slot;", 1);
+        due.stops("", "cell 0 0;slot;cell 0 0;idle 2;fan 0 1;burst 0 1;", 5);
+        due.stops("ports 1;", "cell 0 0;slot;fan 0 1;slot;fan 0 2;slot;", 4);
+        due.stops("depth 1;ports 2;", "cell 0 0;cell 1 0;slot;cell 1 0;cell 1 1;", 4);
+        due.stops("ports 6;", "cell 5 5;fan 4 63;", 2);
         due.same("crossbar 1", due.house.stop(1, 0), NONE);
         due.same("traffic 1", due.house.stop(0, 1), NONE);
         for (int wrong : WRONG) {
@@ -327,75 +264,75 @@ public final class PromisesTest {
     private static void promise9Fans() {
         // two of three are apart: 0 and 2; nothing is left for 1
         due.fresh("ports 3;", "fan 0 3;fan 1 6;fan 2 4;slot;slot;");
-        state(3, 0, 0, 1, 3, 4, 0, 30, 1, 40, 3, 41, 6, 42, 4, 70, -1);
-        state(4, 0, 1, 4, 2, 70, 0, 71, 0, 72, 2, 30, 0, 31, 1, 40, 0, 41, 6, 42, 0);
-        state(5, 4, 3, 70, -1, 71, 1, 72, 1, 31, 0, 41, 0);
+        due.state(3, 0, 0, 1, 3, 4, 0, 30, 1, 40, 3, 41, 6, 42, 4, 70, -1);
+        due.state(4, 0, 1, 4, 2, 70, 0, 71, 0, 72, 2, 30, 0, 31, 1, 40, 0, 41, 6, 42, 0);
+        due.state(5, 4, 3, 70, -1, 71, 1, 72, 1, 31, 0, 41, 0);
         // of two that clash the least is served, the other is split
         due.fresh("ports 3;", "fan 0 3;fan 1 6;slot;slot;slot;");
-        state(3, 4, 1, 70, 0, 71, 0, 72, 1, 41, 2);
-        state(4, 4, 2, 71, 1, 72, -1, 41, 0);
-        state(5, 70, -1, 71, -1, 72, -1);
+        due.state(3, 4, 1, 70, 0, 71, 0, 72, 1, 41, 2);
+        due.state(4, 4, 2, 71, 1, 72, -1, 41, 0);
+        due.state(5, 70, -1, 71, -1, 72, -1);
         // most INPUTS go before most OUTPUTS; one set of most INPUTS is least
         due.fresh("ports 4;", "fan 0 15;fan 1 1;fan 2 2;fan 3 2;slot;");
-        state(5, 4, 2, 70, 1, 71, 2, 72, 0, 73, 0, 40, 3, 43, 2);
+        due.state(5, 4, 2, 70, 1, 71, 2, 72, 0, 73, 0, 40, 3, 43, 2);
         // the fan behind a head waits for the next slot, and a full queue loses
         due.fresh("ports 2;depth 2;", "fan 0 1;fan 1 1;slot;fan 1 2;slot;fan 0 3;fan 1 3;slot;");
-        state(3, 4, 1, 30, 0, 31, 1, 70, 0, 71, -1);
-        state(4, 31, 2, 41, 1);
-        state(5, 4, 2, 70, 1, 71, -1, 31, 1, 41, 2);
-        state(7, 31, 2, 2, 0);
+        due.state(3, 4, 1, 30, 0, 31, 1, 70, 0, 71, -1);
+        due.state(4, 31, 2, 41, 1);
+        due.state(5, 4, 2, 70, 1, 71, -1, 31, 1, 41, 2);
+        due.state(7, 31, 2, 2, 0);
         due.fresh("ports 2;depth 1;", "fan 0 3;fan 1 3;slot;fan 1 1;slot;");
-        state(4, 1, 3, 2, 1, 31, 1);
+        due.state(4, 1, 3, 2, 1, 31, 1);
         // busy ones do not ask, and are not asked
         due.fresh("ports 2;", "cell 0 0;fan 1 1;slot;slot;");
-        state(3, 60, -1, 70, 1, 3, 0, 100, 1);
-        state(4, 60, 0, 70, -1, 3, 1, 100, 0);
+        due.state(3, 60, -1, 70, 1, 3, 0, 100, 1);
+        due.state(4, 60, 0, 70, -1, 3, 1, 100, 0);
         due.fresh("ports 2;", "cell 0 1;fan 1 1;slot;");
-        state(3, 61, 0, 70, 1, 3, 1, 4, 1);
+        due.state(3, 61, 0, 70, 1, 3, 1, 4, 1);
         due.fresh("ports 2;depth 1;", "burst 0 3;slot;fan 0 1;slot;slot;");
-        state(4, 70, 0, 61, -1, 101, 1);
-        state(5, 70, -1, 61, 0, 101, 0);
+        due.state(4, 70, 0, 61, -1, 101, 1);
+        due.state(5, 70, -1, 61, 0, 101, 0);
     }
 
     private static void promise9Pointers() {
         due.fresh("ports 2;rounds 1;", "cell 0 0;cell 1 0;slot;slot;");
-        state(2, 10, 0, 11, 0, 20, 0, 21, 0, 60, -1);
-        state(3, 60, 0, 61, -1, 20, 1, 10, 1, 21, 0, 11, 0, 100, 0, 110, 1, 3, 1);
-        state(4, 60, 1, 20, 0, 11, 1, 110, 0, 3, 2);
+        due.state(2, 10, 0, 11, 0, 20, 0, 21, 0, 60, -1);
+        due.state(3, 60, 0, 61, -1, 20, 1, 10, 1, 21, 0, 11, 0, 100, 0, 110, 1, 3, 1);
+        due.state(4, 60, 1, 20, 0, 11, 1, 110, 0, 3, 2);
         // a second round matches more, and moves no pointer
         due.fresh("ports 2;rounds 2;", "burst 0 3;burst 1 3;slot;");
-        state(3, 60, 0, 61, 1, 20, 1, 21, 0, 10, 1, 11, 0, 3, 2);
+        due.state(3, 60, 0, 61, 1, 20, 1, 21, 0, 10, 1, 11, 0, 3, 2);
         due.fresh("ports 2;rounds 1;", "burst 0 3;burst 1 3;slot;");
-        state(3, 60, 0, 61, -1, 20, 1, 21, 0, 10, 1, 11, 0, 3, 1);
+        due.state(3, 60, 0, 61, -1, 20, 1, 21, 0, 10, 1, 11, 0, 3, 1);
         // a pointer above PORTS, and from the last one on to 0
         due.fresh("ports 3;rounds 1;pointer 5;", "cell 0 1;cell 1 1;slot;slot;");
-        state(0, 10, 2, 20, 2, 22, 2);
-        state(3, 61, 0, 21, 1, 10, 2);
-        state(4, 61, 1, 21, 2, 11, 2);
+        due.state(0, 10, 2, 20, 2, 22, 2);
+        due.state(3, 61, 0, 21, 1, 10, 2);
+        due.state(4, 61, 1, 21, 2, 11, 2);
         due.fresh("ports 3;rounds 1;pointer 2;", "burst 2 7;slot;");
-        state(2, 62, 2, 60, -1, 22, 0, 12, 0);
+        due.state(2, 62, 2, 60, -1, 22, 0, 12, 0);
     }
 
     private static void promise9Bursts() {
         due.fresh("ports 4;depth 1;", "burst 0 11;cell 1 0;slot;burst 0 15;burst 2 12;");
         // rising: 0, 1, 3 come; shut: 3, 1, 0
-        state(1, 1, 3, 5, 3, 53, 1, 52, 0, 51, 2, 50, 3, 100, 1, 101, 1, 102, 0, 103, 1);
+        due.state(1, 1, 3, 5, 3, 53, 1, 52, 0, 51, 2, 50, 3, 100, 1, 101, 1, 102, 0, 103, 1);
         // slot: 0 takes OUTPUT 0 ; then a CELL for 0 comes, that for 1 is lost, no more come
-        state(3, 60, 0, 100, 0, 101, 1, 103, 1);
-        state(4, 1, 6, 2, 1, 5, 5, 51, 4, 50, 5, 53, 1, 52, 0, 100, 1, 102, 0);
-        state(5, 5, 7, 53, 6, 52, 7, 122, 1, 123, 1);
-        cell(5, 0, 2, 0, 1, -1, 1);
+        due.state(3, 60, 0, 100, 0, 101, 1, 103, 1);
+        due.state(4, 1, 6, 2, 1, 5, 5, 51, 4, 50, 5, 53, 1, 52, 0, 100, 1, 102, 0);
+        due.state(5, 5, 7, 53, 6, 52, 7, 122, 1, 123, 1);
+        due.cell(5, 0, 2, 0, 1, -1, 1);
     }
 
     private static void promise9Edges() {
         due.fresh("ports 2;", "cell 0 1;idle 3;cell 0 5;");
-        state(2, 0, 3, 60, -1, 61, -1, 3, 1);
-        state(3, 0, -2);
-        state(-1, 0, -2);
-        state(Integer.MAX_VALUE, 0, -2);
+        due.state(2, 0, 3, 60, -1, 61, -1, 3, 1);
+        due.state(3, 0, -2);
+        due.state(-1, 0, -2);
+        due.state(Integer.MAX_VALUE, 0, -2);
         for (int what : new int[] {-1, 6, 7, 8, 9, 12, 19, 22, 32, 42, 52, 62, 72, 80, 81, 90, 99, 102, 112, 120, 121,
             200, 1000, Integer.MAX_VALUE, Integer.MIN_VALUE}) {
-            state(0, what, -2);
+            due.state(0, what, -2);
         }
         due.same("crossbar 1", due.house.state(1, 0, 0, 0), -2);
         due.same("traffic 1", due.house.state(0, 1, 0, 0), -2);
@@ -403,16 +340,16 @@ public final class PromisesTest {
             due.same("crossbar " + wrong, due.house.state(wrong, 0, 0, 0), -2);
             due.same("traffic " + wrong, due.house.state(0, wrong, 0, 0), -2);
         }
-        due.fresh("ports 6;", many("idle 9;", 40));
-        state(40, 0, 360, 155, 0, 156, -2, 160, -2, 65, -1, 66, -2);
+        due.fresh("ports 6;", "idle 9;".repeat(40));
+        due.state(40, 0, 360, 155, 0, 156, -2, 160, -2, 65, -1, 66, -2);
     }
 
     private static void promise10() {
         due.fresh("ports 2;depth 1;", "cell 0 1;fan 1 3;slot;cell 0 1;fan 1 1;slot;slot;cell 0 5;");
-        cell(0, 0, 2, 0, 0, 1, 0);
-        cell(1, 1, 3, 1, 0, 0, 0);
-        cell(2, 0, 2, 0, 1, -1, 1);
-        cell(3, 1, 1, 1, 1, 1, 0);
+        due.cell(0, 0, 2, 0, 0, 1, 0);
+        due.cell(1, 1, 3, 1, 0, 0, 0);
+        due.cell(2, 0, 2, 0, 1, -1, 1);
+        due.cell(3, 1, 1, 1, 1, 1, 0);
         due.same("what 6", due.house.cell(0, 0, 0, 6), -2);
         due.same("cell 4", due.house.cell(0, 0, 4, 0), -2);
         due.same("crossbar 1", due.house.cell(1, 0, 0, 0), -2);
@@ -425,30 +362,24 @@ public final class PromisesTest {
         }
         // a FAN that is not away yet
         due.fresh("ports 2;", "fan 0 1;fan 1 3;slot;");
-        cell(0, 0, 1, 1, 0, 0, 0);
-        cell(1, 1, 3, 1, 0, -1, 0);
-    }
-
-    private static void full(int slot, int... inputs) {
-        for (int o = 0; o < inputs.length; o++) {
-            due.same("full(0, " + slot + ", " + o + ")", due.house.full(0, slot, o), inputs[o]);
-        }
+        due.cell(0, 0, 1, 1, 0, 0, 0);
+        due.cell(1, 1, 3, 1, 0, -1, 0);
     }
 
     private static void promise11() {
         // all grant 0 at first; then they fall into step
         due.fresh("ports 3;rounds 1;", "");
-        full(0, 0, -1, -1);
+        due.full(0, 0, -1, -1);
         // GRANTS 1 0 0, ACCEPTS 1 0 0: OUTPUT 0 grants 1, the others 0, which takes 1
-        full(1, 1, 0, -1);
+        due.full(1, 1, 0, -1);
         // GRANTS 2 1 0, ACCEPTS 2 1 0: each its own
-        full(2, 2, 1, 0);
-        full(3, 0, 2, 1);
-        full(99, 0, 2, 1);
-        full(98, 2, 1, 0);
-        full(0, 0, -1, -1, -1);
-        full(100, -1, -1, -1);
-        full(-1, -1, -1, -1);
+        due.full(2, 2, 1, 0);
+        due.full(3, 0, 2, 1);
+        due.full(99, 0, 2, 1);
+        due.full(98, 2, 1, 0);
+        due.full(0, 0, -1, -1, -1);
+        due.full(100, -1, -1, -1);
+        due.full(-1, -1, -1, -1);
         due.same("output -1", due.house.full(0, 2, -1), NONE);
         due.same("output 3", due.house.full(0, 2, 3), NONE);
         due.same("crossbar 1", due.house.full(1, 0, 0), NONE);
@@ -458,23 +389,16 @@ public final class PromisesTest {
             due.same("output " + wrong, due.house.full(0, 0, wrong), NONE);
         }
         due.fresh("ports 2;rounds 2;pointer 1;", "");
-        full(0, 0, 1);
-        full(1, 1, 0);
-    }
-
-    private static void rhythm(String bar, int... answers) {
-        due.fresh(bar, "");
-        for (int what = 0; what < answers.length; what++) {
-            due.same("rhythm(0, " + what + ")", due.house.rhythm(0, what), answers[what]);
-        }
+        due.full(0, 0, 1);
+        due.full(1, 1, 0);
     }
 
     private static void promise12() {
-        rhythm("ports 1;rounds 1;", 1, 1, 1, 0, -2);
+        due.rhythm("ports 1;rounds 1;", 1, 1, 1, 0, -2);
         // behind SLOT 0: GRANTS 1 0, ACCEPTS 1 0; 1: 0 1, 0 1; 2: 1 0, 1 0 again
-        rhythm("ports 2;rounds 1;", 3, 2, 4, 1, -2);
-        rhythm("ports 2;rounds 2;pointer 3;", 3, 2, 4, 0, -2);
-        rhythm("ports 6;rounds 1;", 11, 6, 36, 5, -2);
+        due.rhythm("ports 2;rounds 1;", 3, 2, 4, 1, -2);
+        due.rhythm("ports 2;rounds 2;pointer 3;", 3, 2, 4, 0, -2);
+        due.rhythm("ports 6;rounds 1;", 11, 6, 36, 5, -2);
         due.same("crossbar 1", due.house.rhythm(1, 0), -2);
         for (int wrong : WRONG) {
             due.same("crossbar " + wrong, due.house.rhythm(wrong, 0), -2);
@@ -484,28 +408,28 @@ public final class PromisesTest {
 
     private static void promise13() {
         due.fresh("ports 3;rounds 1;", "burst 0 7;burst 1 1;");
-        judge(0, 0, 0, 1, 0, 2, 0, 3, 0, 4, 1, 10, 6, 11, 6, 12, 6);
-        judge(1, 0, 1, 1, 1, 2, 1, 3, 1, 4, 1, 10, 0, 11, 6);
-        judge(2, 0, 2, 1, 2, 2, 1, 3, 1, 4, 1, 10, 1, 11, 0, 12, 6);
+        due.judge(0, 0, 0, 1, 0, 2, 0, 3, 0, 4, 1, 10, 6, 11, 6, 12, 6);
+        due.judge(1, 0, 1, 1, 1, 2, 1, 3, 1, 4, 1, 10, 0, 11, 6);
+        due.judge(2, 0, 2, 1, 2, 2, 1, 3, 1, 4, 1, 10, 1, 11, 0, 12, 6);
         due.fresh("ports 2;rounds 1;", "burst 0 3;burst 1 3;");
-        judge(2, 0, 2, 1, 2, 2, 1, 3, 1, 4, 2, 10, 0, 11, 1);
+        due.judge(2, 0, 2, 1, 2, 2, 1, 3, 1, 4, 2, 10, 0, 11, 1);
         due.fresh("ports 2;rounds 2;", "burst 0 3;burst 1 3;");
-        judge(2, 2, 2, 3, 2, 4, 2);
+        due.judge(2, 2, 2, 3, 2, 4, 2);
         // one pair of two CELLS, or two pairs of one: the row 0 1 goes before 1 6
         due.fresh("ports 2;", "burst 0 3;slot;burst 0 3;cell 1 1;");
-        judge(4, 0, 2, 1, 2, 10, 0, 11, 1, 2, 1, 3, 2, 4, 1);
+        due.judge(4, 0, 2, 1, 2, 10, 0, 11, 1, 2, 1, 3, 2, 4, 1);
         // four in one QUEUE outweigh two pairs
         due.fresh("ports 2;", "burst 0 3;slot;burst 0 3;fan 1 2;slot;burst 0 3;fan 1 2;slot;burst 0 3;cell 1 1;");
-        judge(9, 0, 1, 1, 4);
-        judge(10, 0, 2, 1, 4, 10, 1, 11, 6);
+        due.judge(9, 0, 1, 1, 4);
+        due.judge(10, 0, 2, 1, 4, 10, 1, 11, 6);
         // FANS do not count
         due.fresh("ports 2;", "fan 0 3;fan 1 3;");
-        judge(2, 0, 0, 1, 0, 2, 0, 4, 1);
+        due.judge(2, 0, 0, 1, 0, 2, 0, 4, 1);
         due.fresh("ports 2;", "cell 0 0;fan 1 1;cell 0 1;");
-        judge(2, 0, 1, 2, 1, 3, 1);
-        judge(3, 0, -2);
+        due.judge(2, 0, 1, 2, 1, 3, 1);
+        due.judge(3, 0, -2);
         for (int what : new int[] {5, 9, 12, 16, 20, -1, Integer.MAX_VALUE, Integer.MIN_VALUE}) {
-            judge(0, what, -2);
+            due.judge(0, what, -2);
         }
         due.same("crossbar 1", due.house.judge(1, 0, 0, 0), -2);
         due.same("traffic 1", due.house.judge(0, 1, 0, 0), -2);
@@ -518,22 +442,22 @@ public final class PromisesTest {
 
     private static void promise14() {
         due.fresh("ports 2;", "");
-        mimic(NONE, 0, 0, 0, NONE);
-        mimic(0, NONE, NONE, NONE);
+        due.mimic(NONE, 0, 0, 0, NONE);
+        due.mimic(0, NONE, NONE, NONE);
         // SPEED 1: in SLOT 1 the new CELL goes before the one for OUTPUT 0
         due.fresh("ports 2;", "cell 1 0;cell 0 0;slot;cell 1 1;");
-        mimic(NONE, 3, 1, 0, NONE);
-        mimic(0, 1, 2, 1, NONE);
-        mimic(1, 0, 0, 0, NONE);
-        mimic(2, 1, 1, 1, NONE);
-        mimic(3, NONE, NONE, NONE);
+        due.mimic(NONE, 3, 1, 0, NONE);
+        due.mimic(0, 1, 2, 1, NONE);
+        due.mimic(1, 0, 0, 0, NONE);
+        due.mimic(2, 1, 1, 1, NONE);
+        due.mimic(3, NONE, NONE, NONE);
         // just what cell tells, whatever DEPTH, up to STOP
         due.fresh("ports 2;depth 1;rounds 1;", "burst 0 3;cell 1 0;slot;cell 0 0;cell 1 0;slot;fan 0 3;cell 1 0;cell 1 1;");
-        mimic(NONE, 4, 0, 0);
-        mimic(0, 0, 0, 0);
-        mimic(1, 1, 1, 1);
-        mimic(2, 2, 2, 2);
-        mimic(3, 3, 3, 3);
+        due.mimic(NONE, 4, 0, 0);
+        due.mimic(0, 0, 0, 0);
+        due.mimic(1, 1, 1, 1);
+        due.mimic(2, 2, 2, 2);
+        due.mimic(3, 3, 3, 3);
         due.same("what -1", due.house.mimic(0, 0, 0, -1), NONE);
         due.same("crossbar 1", due.house.mimic(1, 0, NONE, 0), NONE);
         due.same("traffic 1", due.house.mimic(0, 1, NONE, 0), NONE);
@@ -578,13 +502,13 @@ public final class PromisesTest {
 
     private static void promise15() {
         due.fresh("ports 3;", "cell 0 2;cell 2 0;slot;cell 0 2;cell 1 1;slot;cell 0 2;cell 1 2;slot;cell 2 0;burst 1 4;");
-        flow(NONE, 4, NONE, NONE);
-        flow(0, 20, 1, 1, NONE);
+        due.flow(NONE, 4, NONE, NONE);
+        due.flow(0, 20, 1, 1, NONE);
         // OUTPUT 2 has GRANT 1 by now: 1 goes first, the third CELL of 0 waits
-        flow(1, 2, 2, 1, NONE);
-        flow(2, 11, 1, 0, NONE);
-        flow(3, 12, 1, 1, NONE);
-        flow(4, NONE, NONE, NONE);
+        due.flow(1, 2, 2, 1, NONE);
+        due.flow(2, 11, 1, 0, NONE);
+        due.flow(3, 12, 1, 1, NONE);
+        due.flow(4, NONE, NONE, NONE);
         due.same("crossbar 1", due.house.flow(1, 0, NONE, 0), NONE);
         due.same("traffic 1", due.house.flow(0, 1, NONE, 0), NONE);
         for (int wrong : WRONG) {
@@ -595,18 +519,18 @@ public final class PromisesTest {
         }
         // what FANS take is no FLOW
         due.fresh("ports 2;", "fan 0 3;slot;");
-        flow(NONE, 0);
-        flow(0, NONE, NONE, NONE);
+        due.flow(NONE, 0);
+        due.flow(0, NONE, NONE, NONE);
     }
 
     private static void promise16() {
         due.fresh("ports 2;", "");
-        after(0, 0, 1, 0, 2, -1, 3, 0, 4, 0, 5, -1, 6, -1, 7, 0, 8, 0, 9, 1, 10, 0, 11, 0, 12, -2, -1, -2);
+        due.after(0, 0, 1, 0, 2, -1, 3, 0, 4, 0, 5, -1, 6, -1, 7, 0, 8, 0, 9, 1, 10, 0, 11, 0, 12, -2, -1, -2);
         due.fresh("ports 2;", "idle 3;");
-        after(4, 3, 5, 0, 7, 0, 8, 0);
+        due.after(4, 3, 5, 0, 7, 0, 8, 0);
         due.fresh("ports 2;rounds 1;", "cell 0 0;cell 1 0;slot;cell 0 0;cell 1 0;slot;cell 0 1;slot;slot;slot;");
         // 0 has ACCEPT 1 in SLOT 2; an INPUT and an OUTPUT by SLOTS: 0 0, 1 0, 0 1, 0 0, 1 0
-        after(0, 3, 1, 6, 2, 3, 3, 0, 4, 0, 5, 0, 6, 1, 7, 2, 8, 0, 9, 1, 10, 3, 11, 0);
+        due.after(0, 3, 1, 6, 2, 3, 3, 0, 4, 0, 5, 0, 6, 1, 7, 2, 8, 0, 9, 1, 10, 3, 11, 0);
         for (int wrong : WRONG) {
             due.same("crossbar " + wrong, due.house.after(wrong, 0, 0), -2);
             due.same("traffic " + wrong, due.house.after(0, wrong, 0), -2);
@@ -619,29 +543,29 @@ public final class PromisesTest {
     private static void promise16Rest() {
         // a FAN that waits longest, split; then one that is split and not yet away
         due.fresh("ports 3;", "fan 0 1;fan 1 7;slot;fan 0 1;slot;idle 2;");
-        after(0, 2, 1, 2, 2, 1, 3, 1, 4, 1, 5, 0);
+        due.after(0, 2, 1, 2, 2, 1, 3, 1, 4, 1, 5, 0);
         due.fresh("ports 3;", "fan 0 1;fan 1 3;fan 2 7;slot;fan 0 1;fan 1 1;slot;fan 0 1;slot;");
-        after(3, 1, 2, 0, 0, 0);
+        due.after(3, 1, 2, 0, 0, 0);
         // STARVED: 1 has a CELL for OUTPUT 0, which FANS of 0 take; there are as many SLOTS as PORTS
         due.fresh("ports 2;", "fan 0 1;cell 1 0;slot;");
-        after(8, 0);
+        due.after(8, 0);
         due.fresh("ports 2;", "fan 0 1;cell 1 0;slot;fan 0 1;slot;");
-        after(8, 2);
+        due.after(8, 2);
         due.fresh("ports 2;", "fan 0 1;cell 1 0;slot;fan 0 1;slot;slot;");
-        after(8, 0);
+        due.after(8, 0);
         due.fresh("ports 2;", "idle 2;fan 0 1;cell 1 0;");
-        after(8, 3);
+        due.after(8, 3);
         // SAME: by CELLS alone, empty ones, too
         due.fresh("ports 4;", "cell 0 1;cell 2 1;fan 3 1;");
-        after(9, 2);
+        due.after(9, 2);
         due.fresh("ports 4;", "");
-        after(9, 6);
+        due.after(9, 6);
         // MEETS: three SLOTS of the same pairs are three couples
-        due.fresh("ports 2;", many("cell 0 1;cell 1 0;slot;", 3) + "cell 0 1;slot;");
-        after(7, 3, 5, 0, 6, 10);
+        due.fresh("ports 2;", "cell 0 1;cell 1 0;slot;".repeat(3) + "cell 0 1;slot;");
+        due.after(7, 3, 5, 0, 6, 10);
         // FAIR: the first of several
         due.fresh("ports 2;", "cell 0 1;cell 1 0;slot;cell 0 0;slot;");
-        after(6, 10);
+        due.after(6, 10);
     }
 
     private static void promise17() {
@@ -665,38 +589,33 @@ public final class PromisesTest {
         }
     }
 
-    private static void fresh(String bar, String traffic, String log) {
-        due.fresh(bar, traffic);
-        due.same("text of log", due.tell(2, NONE, log), 0);
-    }
-
     private static void promise18() {
-        fresh("ports 2;", "cell 0 0;cell 1 0;slot;", "match 0 0 0;");
-        fits(0, 4, 1, -1, 2, 0, 3, 0, 10, 10, 11, 20, 12, 30, 13, 40, 14, -2, 4, -2, 9, -2);
-        fresh("ports 2;pointer 1;", "cell 0 1;cell 1 1;slot;", "");
-        fits(0, 8, 1, -1, 2, -1, 3, 1, 10, 10, 11, 11, 16, 40, 17, 41, 18, -2);
-        fresh("ports 2;", "burst 0 3;burst 1 3;slot;", "match 0 0 0;apart 0 1 1;");
-        fits(0, 1, 1, 1, 2, 0, 3, 0, 10, 10, 11, -2);
-        fresh("ports 2;", "burst 0 3;burst 1 3;slot;", "match 0 0 0;apart 0 0 0;");
-        fits(0, 0, 1, -1, 2, -1, 3, -1, 10, -2);
-        fresh("ports 1;", "", "apart 60 5 5;apart 0 0 0;");
-        fits(0, 4, 1, -1, 2, 0, 3, -1, 13, 40);
-        fresh("ports 1;", "", "match 0 0 0;");
-        fits(0, 0, 3, -1);
-        fresh("ports 2;", "cell 0 0;slot;", "match 0 0 2;");
-        fits(0, 0);
-        fresh("ports 2;", "cell 0 0;slot;", "match 0 2 0;");
-        fits(0, 0);
-        fresh("ports 2;", "cell 0 0;slot;", "apart 0 2 0;apart 0 0 2;apart 1 0 0;match 0 0 0;");
-        fits(0, 8, 3, 0);
+        due.fresh("ports 2;", "cell 0 0;cell 1 0;slot;", "match 0 0 0;");
+        due.fits(0, 4, 1, -1, 2, 0, 3, 0, 10, 10, 11, 20, 12, 30, 13, 40, 14, -2, 4, -2, 9, -2);
+        due.fresh("ports 2;pointer 1;", "cell 0 1;cell 1 1;slot;", "");
+        due.fits(0, 8, 1, -1, 2, -1, 3, 1, 10, 10, 11, 11, 16, 40, 17, 41, 18, -2);
+        due.fresh("ports 2;", "burst 0 3;burst 1 3;slot;", "match 0 0 0;apart 0 1 1;");
+        due.fits(0, 1, 1, 1, 2, 0, 3, 0, 10, 10, 11, -2);
+        due.fresh("ports 2;", "burst 0 3;burst 1 3;slot;", "match 0 0 0;apart 0 0 0;");
+        due.fits(0, 0, 1, -1, 2, -1, 3, -1, 10, -2);
+        due.fresh("ports 1;", "", "apart 60 5 5;apart 0 0 0;");
+        due.fits(0, 4, 1, -1, 2, 0, 3, -1, 13, 40);
+        due.fresh("ports 1;", "", "match 0 0 0;");
+        due.fits(0, 0, 3, -1);
+        due.fresh("ports 2;", "cell 0 0;slot;", "match 0 0 2;");
+        due.fits(0, 0);
+        due.fresh("ports 2;", "cell 0 0;slot;", "match 0 2 0;");
+        due.fits(0, 0);
+        due.fresh("ports 2;", "cell 0 0;slot;", "apart 0 2 0;apart 0 0 2;apart 1 0 0;match 0 0 0;");
+        due.fits(0, 8, 3, 0);
         // a SLOT that was not, though there was one in the TRAFFIC before
-        fresh("ports 2;", "cell 0 0;slot;cell 0 0;slot;", "match 1 0 0;");
-        fits(0, 8);
+        due.fresh("ports 2;", "cell 0 0;slot;cell 0 0;slot;", "match 1 0 0;");
+        due.fits(0, 8);
         due.tell(1, 0, "cell 0 0;slot;cell 0 0;");
-        fits(0, 0);
+        due.fits(0, 0);
         // by ROUNDS 1 SLOT 0 matches one pair, by more two: 2, 6 of 8 at OUTPUT 0, none or one pair
-        fresh("ports 2;", "burst 0 3;burst 1 3;slot;slot;", "");
-        fits(0, 8, 3, 0);
+        due.fresh("ports 2;", "burst 0 3;burst 1 3;slot;slot;", "");
+        due.fits(0, 8, 3, 0);
         for (int wrong : WRONG) {
             due.same("crossbar " + wrong, due.house.fits(wrong, 0, 0, 0), -2);
             due.same("traffic " + wrong, due.house.fits(0, wrong, 0, 0), -2);
