@@ -102,6 +102,8 @@ final class AfterSentences {
         due.after(3, 0);
         due.fresh("ports 2;", "fan 0 1;fan 1 3;slot;slot;");
         due.after(3, 1);
+        due.fresh("ports 2;", "fan 1 3;fan 0 1;slot;slot;");
+        due.after(3, 1);
     }
 
     @Says(where = "Term 5", words = "(away by now or not)")
@@ -249,6 +251,8 @@ final class AfterSentences {
         due.after(8, 10);
         due.fresh("ports 4;", "idle 9;");
         due.after(8, 0);
+        due.fresh("ports 6;", "idle 6;cell 5 5;");
+        due.after(8, 32);
     }
 
     @Says(where = "Term 5", words = "and sent nothing in the last n SLOTS, n being PORTS")
@@ -313,6 +317,12 @@ final class AfterSentences {
         // as many in all, but for others
         due.fresh("ports 2;", "cell 0 0;cell 1 1;");
         due.after(9, 0);
+        due.fresh("ports 3;", "burst 0 3;burst 1 6;burst 2 3;");
+        due.after(9, 1);
+        due.fresh("ports 6;", "burst 0 52;burst 1 11;burst 2 52;burst 3 11;burst 4 52;");
+        due.after(9, 4);
+        due.fresh("ports 6;", "");
+        due.after(9, 15);
     }
 
     @Says(where = "Promise 15", words = "FLOWS, what 0: how many (k NONE); of the k-th 0: it, 1: CELLS that went, 2: that are still there")

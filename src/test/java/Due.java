@@ -1,6 +1,10 @@
 /** A house, texts fed to it as whole strings, and a count of the answers that are not as due. */
 final class Due {
     static final int NONE = CrossbarHouse.NONE;
+    /** A TRAFFIC of which something is left wherever the class could forget to begin anew. */
+    private static final String LONG_BEFORE = "fan 0 3;fan 1 63;cell 2 0;slot;"
+        + "burst 0 63;burst 1 63;burst 2 63;burst 3 63;burst 4 63;burst 5 63;idle 9;cell 0 0;cell 1 0;cell 2 0;cell 5 0;slot;"
+        + "fan 0 63;fan 1 63;fan 2 63;burst 3 63;burst 4 63;burst 5 63;slot;cell 5 5;fan 4 63;slot;burst 5 63;";
 
     private final String test;
     private final boolean isLoud;
@@ -57,17 +61,26 @@ final class Due {
         return house.text(sort, at);
     }
 
-    /** A fresh house with a CROSSBAR 0 and a TRAFFIC 0. */
+    /** A house with a CROSSBAR 0 and a TRAFFIC 0; others were in their places before, and were asked about. */
     void fresh(String bar, String traffic) {
         fresh(bar + " | " + traffic);
-        same("text of crossbar", tell(0, NONE, bar), 0);
-        same("text of traffic", tell(1, NONE, traffic), 0);
+        same("crossbar before", tell(0, NONE, "ports 6;rounds 1;depth 2;pointer 5;"), 0);
+        same("traffic before", tell(1, NONE, LONG_BEFORE), 0);
+        house.rhythm(0, 3);
+        house.full(0, 3, 3);
+        house.mimic(0, 0, NONE, 2);
+        house.flow(0, 0, NONE, 0);
+        house.judge(0, 0, house.stop(0, 0), 15);
+        same("text of crossbar", tell(0, 0, bar), 0);
+        same("text of traffic", tell(1, 0, traffic), 0);
     }
 
-    /** A fresh house with a CROSSBAR 0, a TRAFFIC 0 and a LOG 0. */
+    /** The same with a LOG 0. */
     void fresh(String bar, String traffic, String log) {
         fresh(bar, traffic);
-        same("text of log", tell(2, NONE, log), 0);
+        same("log before", tell(2, NONE, ""), 0);
+        house.fits(0, 0, 0, 3);
+        same("text of log", tell(2, 0, log), 0);
     }
 
     /** A text to a fresh house, with its FAULT (0 for none) and the FAULT's place. */

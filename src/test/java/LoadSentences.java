@@ -146,6 +146,7 @@ final class LoadSentences {
     @Broken(in = "boolean mayPair", from = "!holds(set, o) && ", to = "")
     @Broken(in = "int bestFrom", from = "most = Math.max(most, sumWith(run, i, o, set));", to = "return sumWith(run, i, o, set);")
     @Broken(in = "int bestFrom", from = "int most = best[(i + 1) * SETS_MOST + set];", to = "int most = 0;")
+    @Broken(in = "int bestOf", from = "best[run.ports * SETS_MOST + set] = 0;", to = "")
     static void mostHasAnOutputForEach(Due due) {
         due.fresh("ports 6;", ALL_SIX);
         due.judge(0, 0, 0);
@@ -163,6 +164,7 @@ final class LoadSentences {
     @Says(where = "Term 3", words = "HEAVY: the greatest sum of how many CELLS the QUEUES of such pairs have")
     @Broken(in = "int sumWith", from = "weighs ? run.cellsIn[i * PORTS_MOST + o] : 1", to = "1")
     @Broken(in = JUDGE, from = "case 1: return bestOf(run, true);", to = "case 1: return bestOf(run, true) + 1;")
+    @Broken(in = "int bestFrom", from = "int most = best[(i + 1) * SETS_MOST + set];", to = "int most = best[(i + 1) * SETS_MOST];")
     static void heavyCountsTheCells(Due due) {
         due.fresh("ports 2;", "");
         due.judge(0, 1, 0);
@@ -170,6 +172,13 @@ final class LoadSentences {
         due.fresh("ports 2;", "burst 0 3;slot;burst 0 3;fan 1 2;slot;burst 0 3;fan 1 2;slot;burst 0 3;cell 1 1;");
         due.state(10, 100, 1, 101, 4, 111, 1);
         due.judge(10, 0, 2, 1, 4);
+        // 1 stays without a pair: two CELLS of 0 for OUTPUT 0 outweigh its one
+        due.fresh("ports 3;", "cell 0 0;fan 1 1;slot;cell 0 0;cell 1 0;cell 2 1;");
+        due.state(6, 100, 2, 110, 1, 121, 1);
+        due.judge(6, 0, 2, 1, 3, 10, 0, 11, 6, 12, 1);
+        // 1 has none, 0 and 2 want the same
+        due.fresh("ports 3;", "cell 0 0;cell 2 0;");
+        due.judge(2, 0, 1, 1, 1);
     }
 
     @Says(where = "Term 3", words = "the first row of such a heaviest pairing by numbers")
@@ -224,6 +233,8 @@ final class LoadSentences {
         due.judge(0, 3, 0);
         due.judge(7, 2, 1, 3, 3);
         due.judge(8, 2, 2, 3, 4);
+        due.fresh("ports 6;rounds 3;", ALL_SIX);
+        due.judge(6, 2, 3, 3, 3);
     }
 
     @Says(where = "Term 3", words = "NEED: the least number of ROUNDS, 1 .. 6")
@@ -242,6 +253,8 @@ final class LoadSentences {
     @Says(where = "Term 3", words = "by which, all else as it is, no INPUT and OUTPUT that are both not BUSY have CELLS for one another")
     @Broken(in = "boolean couldMatchMore", from = "holds(freeOutputs, o) && ", to = "")
     @Broken(in = "boolean couldMatchMore", from = "(wanted[o] & freeInputs) != 0", to = "wanted[o] != 0")
+    @Broken(in = "boolean couldMatchMore", from = "int o = 0;", to = "int o = 1;")
+    @Broken(in = "int roundsNeeded", from = "matcher.free();", to = "")
     static void needEndsWhenNoneCouldMatch(Due due) {
         // 0 takes OUTPUT 0, 1 has CELLS for it alone; 2 has CELLS for OUTPUT 1, which granted 0 first
         due.fresh("ports 3;rounds 1;", "burst 0 3;cell 1 0;cell 2 1;");
@@ -249,6 +262,13 @@ final class LoadSentences {
         due.judge(3, 4, 2);
         due.fresh("ports 3;rounds 4;", "burst 0 3;cell 1 0;cell 2 1;");
         due.judge(3, 4, 2);
+        // from POINTER 1 on 1 accepts OUTPUT 1; OUTPUT 0 and 2 come in the second of the ROUNDS
+        due.fresh("ports 3;rounds 1;pointer 1;", "burst 1 3;cell 2 0;");
+        due.judge(1, 4, 1);
+        due.judge(2, 4, 2);
+        // a SLOT in which FANS made all OUTPUTS BUSY went by
+        due.fresh("ports 3;rounds 1;", "burst 0 7;burst 1 7;fan 2 7;slot;");
+        due.judge(4, 4, 2);
     }
 
     @Says(where = "Promise 13", words = "JUDGES of a STATE, what 0: MOST, 1: HEAVY, 2: NEXT, 3: CELLS of NEXT, 4: NEED")

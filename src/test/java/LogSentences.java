@@ -139,6 +139,9 @@ final class LogSentences {
     @Says(where = "Term 4", words = "ASK: the SLOT (10 times it, and an OUTPUT) such that of all that FIT the greatest number by which one INPUT, or none, is MATCHED with that OUTPUT in it is least")
     @Broken(in = "int mostAlike", from = "int answer = Past.inputOf(pairs[k * SLOTS_MOST + slot], output) + 1;", to = "int answer = Past.inputOf(pairs[k * SLOTS_MOST + slot], output);")
     @Broken(in = "int mostAlike", from = "pairs[k * SLOTS_MOST + slot]", to = "pairs[slot]")
+    @Broken(in = "int mostAlike", from = "tally[k] = 0;", to = "")
+    @Broken(in = "int mostAlike", from = "for (int k = 0; k < size; k++)", to = "for (int k = 1; k < size; k++)")
+    @Broken(in = "int mostAlike", from = "answer <= PORTS_MOST", to = "answer < PORTS_MOST")
     @Broken(in = "int bestToAsk", from = "best = 10 * s + o;", to = "best = 6 * s + o;")
     @Broken(in = "int bestToAsk", from = "most < least", to = "most > least")
     static void askWhereAnswersDiffer(Due due) {
@@ -147,6 +150,15 @@ final class LogSentences {
         due.fits(3, 1);
         due.fresh("ports 2;", "idle 9;".repeat(34) + "cell 0 1;cell 1 1;slot;", "");
         due.fits(3, 3061);
+        // in SLOT 1 OUTPUT 0 is MATCHED with 0 by all but ROUNDS 1 and POINTER 1
+        due.fresh("ports 2;", "slot;burst 0 3;burst 1 3;slot;", "");
+        due.fits(0, 8, 3, 10);
+        // two FIT; what they tell differs first in SLOT 3, where OUTPUT 2 grants from their POINTERS 0, 2 on
+        due.fresh("ports 3;", "cell 1 1;burst 0 3;slot;idle 2;cell 0 2;cell 2 2;slot;", "apart 0 1 1;");
+        due.fits(0, 2, 10, 10, 11, 12, 3, 32);
+        // all are alike: the last INPUT, or none
+        due.fresh("ports 6;", "cell 5 1;slot;", "");
+        due.fits(0, 24, 3, 0);
         // by a LOG that tells the POINTER all answers are alike
         due.fresh("ports 2;", "cell 0 1;cell 1 1;slot;", "match 0 1 1;");
         due.fits(3, 0);

@@ -146,6 +146,7 @@ final class ShadowSentences {
     @Broken(in = "boolean askNext", from = "kept[i] == NONE || isAhead(i, cell, kept[i])", to = "kept[i] == NONE")
     @Broken(in = "boolean askNext", from = "kept[i] == NONE || isAhead(i, cell, kept[i])", to = "kept[i] == NONE || isAhead(i, kept[i], cell)")
     @Broken(in = "boolean askNext", from = "isKept[output[kept[i]]] = false;", to = "")
+    @Broken(in = "void putInRow", from = "rows[k] = rows[k - 1];", to = "")
     static void firstInTheRowIsKept(Due due) {
         refusedAsksNext(due);
         // here OUTPUT 0 asks behind OUTPUT 1: what 1 keeps is first in its row, and stays
@@ -153,6 +154,12 @@ final class ShadowSentences {
         due.mimic(1, 1, 2, 1);
         due.mimic(2, 2, 1, 2);
         due.mimic(3, 1, 1, 1);
+        // by SPEED 1 in SLOT 2 the row of 3 is 7, 4, 0: OUTPUT 0 asks it by 4, OUTPUT 1 by 0
+        due.fresh("ports 4;", "cell 3 1;cell 0 0;cell 1 1;cell 2 1;slot;cell 3 0;cell 0 0;slot;cell 1 0;cell 3 0;");
+        due.mimic(0, 2, 3, 2);
+        due.mimic(4, 2, 2, 2);
+        due.mimic(6, 3, 3, 3);
+        due.mimic(7, 4, 4, 4);
     }
 
     @Says(where = "Term 3", words = "each OUTPUT sends the CELL at it of least IDEAL")
@@ -178,12 +185,20 @@ final class ShadowSentences {
 
     @Says(where = "Term 3", words = "in the end what was kept goes to the OUTPUTS")
     @Broken(in = "void matchStable", from = "stands[kept[i]] = AT_OUTPUT;", to = "")
+    @Broken(in = "void takeFromRow", from = "rows[k] != cell", to = "rows[k] == cell")
     static void whatWasKeptGoesToTheOutput(Due due) {
         due.fresh("ports 2;", "cell 0 0;cell 1 0;slot;cell 1 1;slot;cell 1 0;cell 0 1;");
         due.mimic(0, 0, 0, 0);
         due.mimic(1, 1, 2, 1);
         due.mimic(2, 1, 1, 1);
         due.mimic(-1, 5, 2, 0);
+        // by SPEED 1 the row of 2 is 4, 3, 1 in SLOT 2, when 1 goes; in SLOT 3 its 4 goes before its 3
+        due.fresh("ports 3;", "cell 0 0;cell 2 0;cell 1 0;slot;cell 2 0;slot;cell 2 1;cell 0 1;cell 1 0;");
+        due.mimic(1, 2, 2, 2);
+        due.mimic(3, 3, 4, 3);
+        due.mimic(4, 3, 3, 3);
+        due.mimic(5, 2, 2, 2);
+        due.mimic(6, 4, 3, 4);
     }
 
     @Says(where = "Term 3", words = "LATE: CELLS sent in a later SLOT than IDEAL")

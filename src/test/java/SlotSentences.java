@@ -293,6 +293,9 @@ final class SlotSentences {
         due.state(4, 31, 2, 41, 1);
         due.state(5, 70, 1, 71, -1, 31, 1, 41, 2);
         due.state(6, 70, -1, 71, 1, 31, 0, 41, 0);
+        due.fresh("ports 6;", "fan 0 1;fan 4 1;fan 5 1;slot;fan 4 6;fan 5 48;slot;slot;");
+        due.state(7, 44, 6, 34, 1, 45, 1, 35, 2);
+        due.state(8, 71, 4, 72, 4, 70, 5, 44, 0, 45, 48);
     }
 
     @Says(where = "Term 2", words = "a set of most INPUTS no two of whose HEADS want one OUTPUT")
@@ -339,7 +342,10 @@ final class SlotSentences {
     @Says(where = "Term 2", words = "each OUTPUT that none of these took and that is LEFT of the HEAD of any is taken by the least such INPUT")
     @Broken(in = "void sendFans", from = "for (int i = 0; i < ports && isFree; i++)", to = "for (int i = ports - 1; i >= 0 && isFree; i--)")
     @Broken(in = "void sendFans", from = "boolean isFree = holds(matcher.freeOutputs, o);", to = "boolean isFree = false;")
+    @Broken(in = "void sendFans", from = "for (int o = 0; o < ports; o++)", to = "for (int o = 1; o < ports; o++)")
     static void whatIsFreeIsTakenByTheLeast(Due due) {
+        due.fresh("ports 2;", "fan 0 2;fan 1 3;slot;");
+        due.state(3, 70, 1, 71, 0, 41, 2);
         due.fresh("ports 3;", "fan 0 1;fan 1 3;fan 2 7;slot;");
         due.state(4, 70, 0, 71, 1, 72, 2, 40, 0, 41, 1, 42, 3, 4, 1);
         due.fresh("ports 4;", "fan 0 1;fan 1 13;fan 2 15;slot;");

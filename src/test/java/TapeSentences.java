@@ -9,9 +9,10 @@ final class TapeSentences {
     @Broken(from = "public int count(int sort) {",
         to = "private int calls = 0;\npublic int count(int sort) {\ncalls++;\nif (calls > 500) {\nreturn 0;\n}")
     static void the512thCallIsAnsweredAsTheFirst(Due due) {
-        due.fresh("ports 2;", "");
-        // eight calls told the two texts
-        for (int call = 9; call <= 512; call++) {
+        due.fresh("count");
+        // four calls tell the text
+        due.tell(0, -1, "ports 2;");
+        for (int call = 5; call <= 512; call++) {
             due.same("call " + call, due.house.count(0), 1);
         }
     }
@@ -117,6 +118,16 @@ final class TapeSentences {
         due.same("no more", due.house.end(9), -1);
         due.same("text", due.house.text(0, -1), 0);
         due.same("ports", due.house.crossbar(0, 0), 3);
+        // what stood behind is not read
+        due.tape("portsports 33;");
+        due.house.end(5);
+        due.same("text", due.house.text(0, 0), -1);
+        due.same("fault(1)", due.house.fault(1), 5);
+        due.tape("ports 33;");
+        due.house.end(7);
+        due.same("text", due.house.text(0, 0), -1);
+        due.same("fault(0)", due.house.fault(0), 1);
+        due.same("fault(1)", due.house.fault(1), 7);
         due.same("nothing of nothing", due.house.end(0), 0);
         due.tape("ports 2;");
         due.same("nothing of it", due.house.end(0), 0);

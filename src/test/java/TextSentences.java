@@ -97,8 +97,12 @@ final class TextSentences {
 
     @Says(where = "Term 1", words = "a POINTER, 0 .. 5 (0 at first)")
     @Broken(from = "bar[BAR_POINTER] = 0;", to = "bar[BAR_POINTER] = 1;")
+    @Broken(from = "bar[BAR_POINTER] = 0;", to = "")
     static void pointerIsZeroAtFirst(Due due) {
         bar(due, "", 3, 0);
+        due.tell(0, 0, "pointer 3;");
+        due.tell(0, 0, "");
+        due.same("behind one that had another", due.house.crossbar(0, 3), 0);
         bar(due, "ports 1;rounds 1;depth 1;", 3, 0);
     }
 
@@ -209,6 +213,8 @@ final class TextSentences {
     @Broken(from = "FIRST_WORD = {0, 4, 9, 11}", to = "FIRST_WORD = {0, 3, 9, 11}")
     @Broken(in = "boolean readLine", from = "if (token != TOKEN_SEMICOLON)",
         to = "if (token != TOKEN_SEMICOLON && token != TOKEN_END)")
+    @Broken(in = "boolean isHere", from = "int k = 0;", to = "int k = 1;")
+    @Broken(in = "boolean isHere", from = "k < word.length()", to = "k < word.length() - 1")
     static void crossbarsTextHasOneNumberALine(Due due) {
         due.right(0, "ports 1;rounds 1;depth 1;pointer 1;");
         due.right(0, "pointer 1;depth 1;rounds 1;ports 1;pointer 1;");
@@ -218,6 +224,8 @@ final class TextSentences {
         due.faulty(0, "slot;", 1, 0);
         due.faulty(0, "match 0 0 0;", 1, 0);
         due.faulty(0, "port 1;", 1, 0);
+        due.faulty(0, "sorts 1;", 1, 0);
+        due.faulty(0, "portz 1;", 1, 0);
     }
 
     @Says(where = "Term 1", words = "A CROSSBAR's text: {")
