@@ -96,7 +96,10 @@ final class AfterSentences {
     @Broken(in = "int splits(Came", from = "came.sendings[k] > 1", to = "came.isFan[k] && Integer.bitCount(came.outputs[k]) > 1")
     @Broken(in = "int splits(Came", from = "came.sendings[k] > 1", to = "came.isFan[k] && came.waitOf(k) > 0")
     @Broken(in = "int splits(Came", from = "came.sendings[k] > 1", to = "came.sendings[k] > 2")
+    @Broken(in = "int splits(Came", from = "k < came.size", to = "k <= came.size")
     static void splitFansSentInSeveralSlots(Due due) {
+        due.fresh("ports 2;", "fan 0 3;slot;");
+        due.after(3, 0);
         // sent at once to all; waits, and is sent in one SLOT; was sent in two
         due.fresh("ports 2;", "fan 0 3;slot;fan 0 1;fan 1 1;slot;slot;");
         due.after(3, 0);
@@ -228,6 +231,7 @@ final class AfterSentences {
     @Says(where = "Term 5", words = "MEETS: couples of SLOTS in which the same pairs were MATCHED (some, and all of them)")
     @Broken(in = "int meets", from = "if (past.pairs[s] != 0)", to = "if (past.pairs[s] >= 0)")
     @Broken(in = "int meets", from = "past.pairs[t] == past.pairs[s]", to = "(past.pairs[t] & past.pairs[s]) != 0")
+    @Broken(in = "int meets", from = "t < past.slots", to = "t <= past.slots")
     @Broken(in = "int meets", from = "past.pairs[t] == past.pairs[s]", to = "past.pairs[t] == past.pairs[s] && t == s + 1")
     @Broken(in = "int meets", from = "past.pairs[t] == past.pairs[s]", to = "past.pairs[t] == past.pairs[s] && past.reached[t] == past.reached[s]")
     static void slotsMeetInAllTheirPairs(Due due) {
@@ -237,6 +241,11 @@ final class AfterSentences {
         due.after(7, 0);
         due.fresh("ports 2;", "cell 0 1;cell 1 0;slot;idle 2;cell 0 1;cell 1 0;slot;cell 0 1;cell 1 0;slot;cell 0 1;slot;");
         due.after(7, 3);
+        // the SLOTS of another TRAFFIC before do not count
+        due.fresh("ports 2;", "cell 0 0;slot;cell 0 0;slot;");
+        due.after(7, 1);
+        due.tell(1, 0, "cell 0 0;slot;");
+        due.after(7, 0);
         // what FANS take is no pair
         due.fresh("ports 2;", "cell 0 0;slot;cell 0 0;fan 1 2;slot;fan 0 1;slot;fan 0 1;slot;");
         due.after(7, 1);
