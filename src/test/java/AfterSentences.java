@@ -9,6 +9,7 @@ final class AfterSentences {
     @Says(where = "Term 5", words = "Behind all DEEDS up to STOP")
     @Broken(in = "public int after", from = "DEEDS_MOST", to = "DEEDS_MOST - 1")
     @Broken(in = "int follow", from = "return k;", to = "continue;")
+    @Broken(in = "public int after(", from = "run.follow(told, traffic, DEEDS_MOST);", to = "run.follow(told, traffic, DEEDS_MOST);\nrun.passSlot();")
     static void afterIsBehindAllDeedsUpToStop(Due due) {
         due.fresh("ports 2;", "slot;".repeat(40));
         due.after(4, 40);
@@ -380,8 +381,10 @@ final class AfterSentences {
 
     @Says(where = "Promise 15", words = "there is none such (of either)")
     @Broken(in = "public int flow", from = "return NONE;", to = "return NOT_THERE;")
-    @Broken(in = "boolean begins", from = "!told.has(CROSSBARS, crossbar)", to = "crossbar < 0 || crossbar >= TEXTS_MOST")
-    @Broken(in = "boolean begins", from = "!told.has(TRAFFICS, traffic)", to = "traffic < 0 || traffic >= TEXTS_MOST")
+    @Broken(in = "public int flow(", from = "begins(crossbar, traffic)", to = "begins(crossbar == 1 ? 0 : crossbar, traffic)")
+    @Broken(in = "public int flow(", from = "begins(crossbar, traffic)", to = "begins(Math.max(crossbar, 0), traffic)")
+    @Broken(in = "public int flow(", from = "begins(crossbar, traffic)", to = "begins(crossbar, traffic == 1 ? 0 : traffic)")
+    @Broken(in = "public int flow(", from = "begins(crossbar, traffic)", to = "begins(crossbar, Math.max(traffic, 0))")
     static void noFlowsOfNone(Due due) {
         due.fresh("ports 2;", "cell 0 0;slot;");
         due.same("crossbar 1 of one", due.house.flow(1, 0, -1, 0), -1);
@@ -408,10 +411,12 @@ final class AfterSentences {
 
     @Says(where = "Promise 16", words = "-2: there is none such (of any)")
     @Broken(in = "public int after", from = "return NOT_THERE;", to = "return NONE;")
-    @Broken(in = "boolean begins", from = "!told.has(CROSSBARS, crossbar)", to = "crossbar < 0 || crossbar >= TEXTS_MOST")
-    @Broken(in = "boolean begins", from = "!told.has(TRAFFICS, traffic)", to = "traffic < 0 || traffic >= TEXTS_MOST")
     @Broken(in = AFTER, from = "what >= 10 + run.ports", to = "what > 10 + run.ports")
     @Broken(in = AFTER, from = "what >= 10 + run.ports", to = "what >= 10 + PORTS_MOST")
+    @Broken(in = "public int after(", from = "begins(crossbar, traffic)", to = "begins(crossbar == 1 ? 0 : crossbar, traffic)")
+    @Broken(in = "public int after(", from = "begins(crossbar, traffic)", to = "begins(Math.max(crossbar, 0), traffic)")
+    @Broken(in = "public int after(", from = "begins(crossbar, traffic)", to = "begins(crossbar, traffic == 1 ? 0 : traffic)")
+    @Broken(in = "public int after(", from = "begins(crossbar, traffic)", to = "begins(crossbar, Math.max(traffic, 0))")
     static void nothingAfterNone(Due due) {
         due.fresh("ports 2;", "cell 0 0;slot;");
         due.same("crossbar 1 of one", due.house.after(1, 0, 0), -2);

@@ -4,7 +4,7 @@ import java.lang.annotation.Retention;
 import java.lang.annotation.RetentionPolicy;
 import java.lang.annotation.Target;
 
-/** A change of the class that breaks just the words that a test is the test of: the test must notice it. */
+/** A change of the class that breaks the words that a test is the test of: the test must notice it. */
 @Retention(RetentionPolicy.RUNTIME)
 @Target(ElementType.METHOD)
 @Repeatable(Broken.All.class)

@@ -283,10 +283,13 @@ final class LoadSentences {
     }
 
     @Says(where = "Promise 13", words = "-2: there is no such STATE, INPUT, or for another what")
-    @Broken(in = "boolean reaches", from = "run.follow(told, traffic, n) == n", to = "run.follow(told, traffic, n) >= 0")
     @Broken(in = "public int judge", from = ": NOT_THERE", to = ": NONE")
-    @Broken(in = "boolean begins", from = "!told.has(CROSSBARS, crossbar)", to = "crossbar < 0 || crossbar >= TEXTS_MOST")
-    @Broken(in = "boolean begins", from = "!told.has(TRAFFICS, traffic)", to = "traffic < 0 || traffic >= TEXTS_MOST")
+    @Broken(in = "public int judge(", from = "reaches(crossbar, traffic, n)", to = "reaches(crossbar == 1 ? 0 : crossbar, traffic, n)")
+    @Broken(in = "public int judge(", from = "reaches(crossbar, traffic, n)", to = "reaches(Math.max(crossbar, 0), traffic, n)")
+    @Broken(in = "public int judge(", from = "reaches(crossbar, traffic, n)", to = "reaches(crossbar, traffic == 1 ? 0 : traffic, n)")
+    @Broken(in = "public int judge(", from = "reaches(crossbar, traffic, n)", to = "reaches(crossbar, Math.max(traffic, 0), n)")
+    @Broken(in = "public int judge(", from = "reaches(crossbar, traffic, n)", to = "reaches(crossbar, traffic, Math.min(n, 2))")
+    @Broken(in = "public int judge(", from = "reaches(crossbar, traffic, n)", to = "reaches(crossbar, traffic, Math.max(n, 0))")
     static void noJudgesOfNoState(Due due) {
         due.fresh("ports 2;", "cell 0 0;slot;cell 2 0;slot;");
         due.judge(2, 0, 0);

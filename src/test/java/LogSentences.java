@@ -36,6 +36,7 @@ final class LogSentences {
     @Broken(in = "int follow", from = "return k;", to = "continue;")
     @Broken(in = "boolean allSo", from = "int facts = told.lineCount(LOGS, log);", to = "int facts = Math.min(7, told.lineCount(LOGS, log));")
     @Broken(in = "boolean allSo", from = "k = 0;", to = "k = 1;")
+    @Broken(in = "public int fits(", from = "run.follow(told, traffic, DEEDS_MOST);", to = "run.follow(told, traffic, DEEDS_MOST);\nrun.passSlot();")
     static void eachFactIsHeldAgainstAllSlots(Due due) {
         due.fresh("ports 2;", "idle 1;".repeat(38) + "cell 0 1;slot;", "match 38 0 1;");
         due.fits(0, 8);

@@ -235,8 +235,10 @@ final class ShadowSentences {
     @Broken(in = "public int mimic", from = "k >= shadow.size", to = "k > shadow.size")
     @Broken(in = "public int mimic", from = "(k < 0 || k >= shadow.size)", to = "k >= shadow.size")
     @Broken(in = "public int mimic", from = "return NONE;", to = "return NOT_THERE;")
-    @Broken(in = "boolean begins", from = "!told.has(CROSSBARS, crossbar)", to = "crossbar < 0 || crossbar >= TEXTS_MOST")
-    @Broken(in = "boolean begins", from = "!told.has(TRAFFICS, traffic)", to = "traffic < 0 || traffic >= TEXTS_MOST")
+    @Broken(in = "public int mimic(", from = "begins(crossbar, traffic)", to = "begins(crossbar == 1 ? 0 : crossbar, traffic)")
+    @Broken(in = "public int mimic(", from = "begins(crossbar, traffic)", to = "begins(Math.max(crossbar, 0), traffic)")
+    @Broken(in = "public int mimic(", from = "begins(crossbar, traffic)", to = "begins(crossbar, traffic == 1 ? 0 : traffic)")
+    @Broken(in = "public int mimic(", from = "begins(crossbar, traffic)", to = "begins(crossbar, Math.max(traffic, 0))")
     static void noSuchCellOfTheShadow(Due due) {
         due.fresh("ports 2;", "cell 0 0;cell 1 1;");
         for (int k : new int[] {2, 40, -2, -3, Integer.MAX_VALUE, Integer.MIN_VALUE}) {

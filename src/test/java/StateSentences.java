@@ -3,18 +3,17 @@ final class StateSentences {
     private static final String TELL = "int tell(int what) {\n            if (what < 10)";
     private static final String BEGIN = "void begin(Told told, int crossbar, int roundsNow";
     private static final String HAS_BAR = "!told.has(CROSSBARS, crossbar)";
-    private static final String HAS_TRAFFIC = "!told.has(TRAFFICS, traffic)";
     private static final int[] WRONG = {2, -1, -2, Integer.MAX_VALUE, Integer.MIN_VALUE};
 
     private StateSentences() {
     }
 
     @Says(where = "Promise 8", words = "NONE: there is none such (of either)")
-    @Broken(in = "boolean begins", from = HAS_BAR, to = "crossbar < 0 || crossbar >= TEXTS_MOST")
-    @Broken(in = "boolean begins", from = HAS_BAR, to = "crossbar >= told.counts[0]")
-    @Broken(in = "boolean begins", from = HAS_TRAFFIC, to = "traffic < 0 || traffic >= TEXTS_MOST")
-    @Broken(in = "boolean begins", from = HAS_TRAFFIC, to = "traffic >= told.counts[1]")
     @Broken(in = "public int stop", from = ": NONE", to = ": NOT_THERE")
+    @Broken(in = "public int stop(", from = "begins(crossbar, traffic)", to = "begins(crossbar == 1 ? 0 : crossbar, traffic)")
+    @Broken(in = "public int stop(", from = "begins(crossbar, traffic)", to = "begins(Math.max(crossbar, 0), traffic)")
+    @Broken(in = "public int stop(", from = "begins(crossbar, traffic)", to = "begins(crossbar, traffic == 1 ? 0 : traffic)")
+    @Broken(in = "public int stop(", from = "begins(crossbar, traffic)", to = "begins(crossbar, Math.max(traffic, 0))")
     static void noStopOfNone(Due due) {
         due.fresh("stop");
         due.same("of neither", due.house.stop(0, 0), -1);
@@ -137,10 +136,13 @@ final class StateSentences {
     }
 
     @Says(where = "Promise 9", words = "-2: there is no such STATE")
-    @Broken(in = "boolean begins", from = HAS_BAR, to = "crossbar < 0 || crossbar >= TEXTS_MOST")
-    @Broken(in = "boolean begins", from = HAS_TRAFFIC, to = "traffic < 0 || traffic >= TEXTS_MOST")
     @Broken(in = "public int state", from = ": NOT_THERE", to = ": NONE")
-    @Broken(in = "boolean reaches", from = "run.follow(told, traffic, n) == n", to = "run.follow(told, traffic, n) >= 0")
+    @Broken(in = "public int state(", from = "reaches(crossbar, traffic, n)", to = "reaches(crossbar == 1 ? 0 : crossbar, traffic, n)")
+    @Broken(in = "public int state(", from = "reaches(crossbar, traffic, n)", to = "reaches(Math.max(crossbar, 0), traffic, n)")
+    @Broken(in = "public int state(", from = "reaches(crossbar, traffic, n)", to = "reaches(crossbar, traffic == 1 ? 0 : traffic, n)")
+    @Broken(in = "public int state(", from = "reaches(crossbar, traffic, n)", to = "reaches(crossbar, Math.max(traffic, 0), n)")
+    @Broken(in = "public int state(", from = "reaches(crossbar, traffic, n)", to = "reaches(crossbar, traffic, Math.min(n, 2))")
+    @Broken(in = "public int state(", from = "reaches(crossbar, traffic, n)", to = "reaches(crossbar, traffic, Math.max(n, 0))")
     static void noSuchState(Due due) {
         due.fresh("ports 2;", "slot;cell 0 0;cell 0 0;");
         due.state(2, 0, 1);
@@ -196,6 +198,7 @@ final class StateSentences {
     @Says(where = "Promise 10", words = "Of the k-th that came, behind all DEEDS up to STOP")
     @Broken(in = "public int cell", from = "DEEDS_MOST", to = "DEEDS_MOST - 1")
     @Broken(in = "int follow", from = "return k;", to = "continue;")
+    @Broken(in = "public int cell(", from = "run.follow(told, traffic, DEEDS_MOST);", to = "run.follow(told, traffic, DEEDS_MOST);\nrun.passSlot();")
     static void cellsAreToldBehindAllDeeds(Due due) {
         due.fresh("ports 2;", "slot;".repeat(38) + "cell 0 0;slot;");
         due.cell(0, 0, 1, 0, 38, 38, 0);
@@ -278,9 +281,11 @@ final class StateSentences {
     @Says(where = "Promise 10", words = "-2: there is none such (of any)")
     @Broken(in = "int tell(int k, int what)", from = "k >= size", to = "k > size")
     @Broken(in = "int tell(int k, int what)", from = "k < 0", to = "k < -1")
-    @Broken(in = "boolean begins", from = HAS_BAR, to = "crossbar < 0 || crossbar >= TEXTS_MOST")
-    @Broken(in = "boolean begins", from = HAS_TRAFFIC, to = "traffic >= told.counts[1]")
     @Broken(in = "public int cell", from = "return NOT_THERE;", to = "return NONE;")
+    @Broken(in = "public int cell(", from = "begins(crossbar, traffic)", to = "begins(crossbar == 1 ? 0 : crossbar, traffic)")
+    @Broken(in = "public int cell(", from = "begins(crossbar, traffic)", to = "begins(Math.max(crossbar, 0), traffic)")
+    @Broken(in = "public int cell(", from = "if (!begins(", to = "traffic = traffic == 1 ? 0 : traffic;\nif (!begins(")
+    @Broken(in = "public int cell(", from = "begins(crossbar, traffic)", to = "begins(crossbar, Math.max(traffic, 0))")
     static void noSuchCell(Due due) {
         due.fresh("ports 2;", "cell 0 0;cell 1 1;");
         for (int k : new int[] {2, 360, 361, -1, -2, Integer.MAX_VALUE, Integer.MIN_VALUE}) {
@@ -427,7 +432,7 @@ final class StateSentences {
     @Broken(in = "public int drawn", from = HAS_BAR, to = "crossbar < 0 || crossbar >= TEXTS_MOST")
     @Broken(in = "public int drawn", from = HAS_BAR, to = "crossbar >= told.counts[0]")
     @Broken(in = "public int drawn", from = "return NOT_THERE;", to = "return NONE;")
-    @Broken(in = TELL, from = "if (at >= ports)", to = "if (at > ports)")
+    @Broken(in = "public int drawn(", from = "return run.tell(what);", to = "return run.tell(what == 13 ? 12 : what);")
     static void nothingIsDrawnForNone(Due due) {
         due.fresh("drawn");
         due.same("of none", due.house.drawn(0, 1, 1, 0), -2);

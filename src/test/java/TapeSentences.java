@@ -363,7 +363,7 @@ final class TapeSentences {
     }
 
     @Says(where = "Promise 7", words = "How many DEEDS (k NONE, what 0)")
-    @Broken(in = "int tellLine", from = "return what == 0 ? lines : NOT_THERE;", to = "return what == 0 ? Math.max(1, lines) : NOT_THERE;")
+    @Broken(in = "int tellLine", from = "return what == 0 ? lines", to = "return what == 0 ? Math.max(sort == TRAFFICS ? 1 : 0, lines)")
     static void howManyDeedsThereAre(Due due) {
         due.fresh("deed");
         due.tell(1, -1, "");
@@ -398,8 +398,8 @@ final class TapeSentences {
     }
 
     @Says(where = "Promise 7", words = "-2: there is none such (of either)")
-    @Broken(in = "int tellLine", from = "!told.has(sort, at)", to = "at < 0 || at >= TEXTS_MOST")
-    @Broken(in = "int tellLine", from = "!told.has(sort, at)", to = "at >= told.counts[sort]")
+    @Broken(in = "int tellLine", from = "!told.has(sort, at)", to = "sort == TRAFFICS ? at < 0 || at >= TEXTS_MOST : !told.has(sort, at)")
+    @Broken(in = "int tellLine", from = "!told.has(sort, at)", to = "sort == TRAFFICS ? at >= told.counts[sort] : !told.has(sort, at)")
     static void noDeedsOfNoTraffic(Due due) {
         due.fresh("deed");
         due.same("0 of none", due.house.deed(0, -1, 0), -2);
@@ -411,8 +411,8 @@ final class TapeSentences {
     }
 
     @Says(where = "Promise 7", words = "-2: there is none such (of either)")
-    @Broken(in = "int tellLine", from = "k >= lines", to = "k > lines")
-    @Broken(in = "int tellLine", from = "k < 0 ||", to = "k < -2 ||")
+    @Broken(in = "int tellLine", from = "k >= lines", to = "k >= lines + (sort == TRAFFICS ? 1 : 0)")
+    @Broken(in = "int tellLine", from = "k < 0 ||", to = "k < (sort == TRAFFICS ? -2 : 0) ||")
     static void noSuchDeed(Due due) {
         due.fresh("deed");
         due.tell(1, -1, "slot;slot;");
@@ -427,8 +427,8 @@ final class TapeSentences {
 
     @Says(where = "Promise 7", words = "or for another what")
     @Broken(in = "public int deed", from = "what, 2)", to = "what, 3)")
-    @Broken(in = "int tellLine", from = "what < 0 ||", to = "what < -1 ||")
-    @Broken(in = "int tellLine", from = "return what == 0 ? lines : NOT_THERE;", to = "return lines;")
+    @Broken(in = "int tellLine", from = "what < 0 ||", to = "what < (sort == TRAFFICS ? -1 : 0) ||")
+    @Broken(in = "int tellLine", from = "return what == 0 ? lines", to = "return what == 0 || sort == TRAFFICS ? lines")
     static void noOtherWhatOfADeed(Due due) {
         due.fresh("deed");
         due.tell(1, -1, "slot;cell 1 1;");
@@ -441,7 +441,7 @@ final class TapeSentences {
     }
 
     @Says(where = "Promise 17", words = "How many FACTS (k NONE, what 0)")
-    @Broken(in = "int tellLine", from = "return what == 0 ? lines : NOT_THERE;", to = "return what == 0 ? Math.max(1, lines) : NOT_THERE;")
+    @Broken(in = "int tellLine", from = "return what == 0 ? lines", to = "return what == 0 ? Math.max(sort == LOGS ? 1 : 0, lines)")
     static void howManyFactsThereAre(Due due) {
         due.fresh("fact");
         due.tell(2, -1, "");
@@ -465,10 +465,10 @@ final class TapeSentences {
     }
 
     @Says(where = "Promise 17", words = "-2: there is none such (of either)")
-    @Broken(in = "int tellLine", from = "!told.has(sort, at)", to = "at < 0 || at >= TEXTS_MOST")
-    @Broken(in = "int tellLine", from = "!told.has(sort, at)", to = "at >= told.counts[sort]")
-    @Broken(in = "int tellLine", from = "k >= lines", to = "k > lines")
-    @Broken(in = "int tellLine", from = "k < 0 ||", to = "k < -2 ||")
+    @Broken(in = "int tellLine", from = "!told.has(sort, at)", to = "sort == LOGS ? at < 0 || at >= TEXTS_MOST : !told.has(sort, at)")
+    @Broken(in = "int tellLine", from = "!told.has(sort, at)", to = "sort == LOGS ? at >= told.counts[sort] : !told.has(sort, at)")
+    @Broken(in = "int tellLine", from = "k >= lines", to = "k >= lines + (sort == LOGS ? 1 : 0)")
+    @Broken(in = "int tellLine", from = "k < 0 ||", to = "k < (sort == LOGS ? -2 : 0) ||")
     static void noSuchLogOrFact(Due due) {
         due.fresh("fact");
         due.same("0 of none", due.house.fact(0, -1, 0), -2);
@@ -484,8 +484,8 @@ final class TapeSentences {
 
     @Says(where = "Promise 17", words = "or for another what")
     @Broken(in = "public int fact", from = "what, 3)", to = "what, 4)")
-    @Broken(in = "int tellLine", from = "what < 0 ||", to = "what < -1 ||")
-    @Broken(in = "int tellLine", from = "return what == 0 ? lines : NOT_THERE;", to = "return lines;")
+    @Broken(in = "int tellLine", from = "what < 0 ||", to = "what < (sort == LOGS ? -1 : 0) ||")
+    @Broken(in = "int tellLine", from = "return what == 0 ? lines", to = "return what == 0 || sort == LOGS ? lines")
     static void noOtherWhatOfAFact(Due due) {
         due.fresh("fact");
         due.tell(2, -1, "match 0 0 0;match 0 0 0;");
