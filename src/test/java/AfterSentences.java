@@ -256,6 +256,7 @@ final class AfterSentences {
     @Broken(in = "boolean hasSomething", from = "run.fansIn[i] > 0", to = "run.fansIn[i] > 9")
     @Broken(in = "boolean hasSomething", from = "run.cellsIn[i * PORTS_MOST + o] > 0", to = "run.cellsIn[i * PORTS_MOST + o] > 9")
     @Broken(in = "int starved(Run", from = "if (hasSomething(run, i))", to = "if (i >= 0)")
+    @Broken(in = "boolean hasSomething", from = "o < run.ports", to = "o <= run.ports")
     static void starvedOnesHaveSomething(Due due) {
         due.fresh("ports 4;", "idle 4;cell 3 3;fan 1 1;");
         due.after(8, 10);
@@ -263,6 +264,8 @@ final class AfterSentences {
         due.after(8, 0);
         due.fresh("ports 6;", "idle 6;cell 5 5;");
         due.after(8, 32);
+        due.fresh("ports 6;", "idle 6;cell 1 0;");
+        due.after(8, 2);
     }
 
     @Says(where = "Term 5", words = "and sent nothing in the last n SLOTS, n being PORTS")
@@ -342,6 +345,19 @@ final class AfterSentences {
         due.fresh("ports 2;", "cell 1 0;slot;cell 1 0;slot;cell 1 0;");
         due.flow(-1, 1);
         due.flow(0, 10, 2, 1);
+    }
+
+    @Says(where = "Promise 15", words = "of the k-th 0: it, 1: CELLS that went, 2: that are still there")
+    @Broken(in = "int queueOf", from = "flow / 10", to = "flow / 9")
+    @Broken(in = "int queueOf", from = "flow % 10", to = "flow % 5")
+    static void flowsOfTheLastPortsAreTold(Due due) {
+        due.fresh("ports 6;", "cell 5 5;slot;cell 4 5;cell 5 4;slot;cell 5 5;slot;cell 4 5;slot;cell 4 5;slot;"
+            + "burst 5 48;cell 4 5;fan 0 48;slot;");
+        due.flow(-1, 3);
+        due.flow(0, 55, 2, 1);
+        due.flow(1, 54, 1, 1);
+        due.flow(2, 45, 3, 1);
+        due.after(6, 54);
     }
 
     @Says(where = "Promise 16", words = "3: SPLITS, 4: IDLE")

@@ -52,6 +52,7 @@ final class LoadSentences {
     @Broken(in = "public int full", from = "output < 0 ||", to = "")
     @Broken(in = "public int full", from = "output >= told.bar(crossbar, BAR_PORTS)", to = "output > PORTS_MOST")
     @Broken(in = "public int full", from = "output >= told.bar(crossbar, BAR_PORTS)", to = "output >= told.bar(crossbar, BAR_PORTS) - 1")
+    @Broken(in = "public int full", from = "output >= told.bar(crossbar, BAR_PORTS)", to = "output > told.bar(crossbar, BAR_PORTS)")
     static void noFullLoadOfNone(Due due) {
         due.fresh("full");
         due.same("of none", due.house.full(0, 0, 0), -1);
@@ -64,6 +65,9 @@ final class LoadSentences {
         for (int wrong : WRONG) {
             due.same("crossbar " + wrong, due.house.full(wrong, 2, 0), -1);
         }
+        due.fresh("ports 6;rounds 4;", "");
+        // by each of the ROUNDS all OUTPUTS grant the next INPUT, which accepts the next of them; there is no OUTPUT 6
+        due.full(0, 0, 1, 2, 3, -1, -1, -1);
     }
 
     @Says(where = "Term 3", words = "RHYTHM: the first SLOT behind which all GRANTS and ACCEPTS are as they were behind an earlier SLOT")
@@ -114,6 +118,26 @@ final class LoadSentences {
     @Broken(in = "int tellRhythm", from = "case 3: return stepAt();", to = "case 3: return stepAt() + 1;")
     static void rhythmIsToldByItsWhats(Due due) {
         due.rhythm("ports 5;rounds 2;pointer 3;", 9, 5, 25, 3);
+    }
+
+    @Says(where = "Promise 12", words = "RHYTHM, what 0: how many, 1: how many ago, 2: MATCHED in these")
+    @Broken(in = FIND, from = "int k = slots - 1;", to = "int k = slots + 1;")
+    @Broken(in = "class FullLoad", from = "POINTER_BITS = 3;", to = "POINTER_BITS = 2;")
+    @Broken(in = FIND, from = "ago = 0;", to = "")
+    static void allRhythmsAreToldOneAfterAnother(Due due) {
+        for (int rounds = 1; rounds <= 4; rounds++) {
+            due.fresh("rhythms by " + rounds + " rounds");
+            due.tell(0, -1, "");
+            for (int n = 0; n < 36; n++) {
+                int ports = 1 + n / 6;
+                due.tell(0, 0, "ports " + ports + ";rounds " + rounds + ";pointer " + n % 6 + ";");
+                // they fall into step one pair a SLOT, and then each INPUT has each OUTPUT in turn
+                int[] answers = {2 * ports - 1, ports, ports * ports, Math.max(0, ports - rounds)};
+                for (int what = 0; what < answers.length; what++) {
+                    due.same(ports + " ports, pointer " + n % 6 + ": rhythm(0, " + what + ")", due.house.rhythm(0, what), answers[what]);
+                }
+            }
+        }
     }
 
     @Says(where = "Promise 12", words = "-2: there is none such, or for another what")

@@ -127,6 +127,18 @@ final class LogSentences {
         due.fits(0, 4, 1, -1, 2, 1);
     }
 
+    @Says(where = "Promise 18", words = "1, 2: SURE of ROUNDS, of POINTER")
+    @Broken(in = "int sureOf", from = "fitting[k] / 10", to = "fitting[k] / 9")
+    @Broken(in = "int sureOf", from = "fitting[k] % 10", to = "fitting[k] % 5")
+    static void sureOfTheGreatest(Due due) {
+        // by each of the ROUNDS the next INPUT from POINTER on is MATCHED with the OUTPUT of its number
+        String all = "burst 0 63;burst 1 63;burst 2 63;burst 3 63;burst 4 63;burst 5 63;slot;";
+        due.fresh("ports 6;", all, "match 0 5 5;match 0 2 2;");
+        due.fits(0, 2, 1, 4, 2, -1, 10, 42, 11, 45, 12, -2);
+        due.fresh("ports 6;", all, "match 0 5 5;match 0 2 2;apart 0 3 3;");
+        due.fits(0, 1, 1, 4, 2, 5, 10, 45, 11, -2);
+    }
+
     @Says(where = "Promise 18", words = "1, 2: SURE of ROUNDS, of POINTER (NONE: not one, or nothing FITS)")
     @Broken(in = "int sureOf", from = "int sure = NONE;", to = "int sure = 0;")
     @Broken(in = "int sureOf", from = "return NONE;", to = "return part;")
@@ -165,6 +177,17 @@ final class LogSentences {
         due.fits(3, 0);
     }
 
+    @Says(where = "Term 4", words = "the greatest number by which one INPUT, or none, is MATCHED with that OUTPUT in it is least")
+    @Broken(in = "int mostAlike", from = "k <= PORTS_MOST", to = "k < PORTS_MOST")
+    @Broken(in = "int mostAlike", from = "k <= PORTS_MOST", to = "k < ports")
+    static void lastInputIsCountedAnewForEachOutput(Due due) {
+        // 5 with OUTPUT 0 by all in SLOT 0; with OUTPUT 1 by 20 of 24 in SLOT 1
+        due.fresh("ports 6;", "cell 5 0;slot;cell 5 1;cell 0 1;slot;", "");
+        due.fits(0, 24, 3, 11);
+        due.fresh("ports 5;", "cell 4 0;slot;cell 4 1;cell 0 1;slot;", "");
+        due.fits(0, 20, 3, 11);
+    }
+
     @Says(where = "Term 4", words = "of several the least")
     @Broken(in = "int bestToAsk", from = "most < least", to = "most <= least")
     static void leastOfSeveralIsAsked(Due due) {
@@ -177,6 +200,7 @@ final class LogSentences {
     @Says(where = "Promise 18", words = "3: ASK (NONE: nothing FITS, or there are no SLOTS)")
     @Broken(in = "int bestToAsk", from = "int best = NONE;", to = "int best = 0;")
     @Broken(in = "int bestToAsk", from = "s < slots && size > 0", to = "s <= slots")
+    @Broken(in = "int bestToAsk", from = "size > 0", to = "size > 1")
     static void nothingToAsk(Due due) {
         due.fresh("ports 2;", "cell 0 0;slot;", "match 0 1 1;");
         due.fits(0, 0, 3, -1);
@@ -188,6 +212,9 @@ final class LogSentences {
         due.fits(3, 0);
         due.tell(2, 0, "match 0 1 1;");
         due.fits(3, -1);
+        // one FITS: all that can be asked is alike, and the least is told
+        due.fresh("ports 2;", "burst 0 3;burst 1 3;slot;", "match 0 1 1;apart 0 0 0;");
+        due.fits(0, 1, 3, 0);
     }
 
     @Says(where = "Promise 18", words = "-2: there is none such (of any)")

@@ -104,6 +104,17 @@ final class ShadowSentences {
         due.same("late by SPEED 2", due.house.mimic(0, 0, -1, 2), 0);
     }
 
+    @Says(where = "Term 3", words = "each is put into its INPUT's row behind as many as there are CELLS at its OUTPUT of earlier IDEAL")
+    @Broken(in = "void putInRow", from = "k > from + at", to = "k > from - at")
+    @Broken(in = "void putInRow", from = "rows[from + at] = cell;", to = "rows[from - at] = cell;")
+    static void newOneStandsBehindAnotherOfTheFirstRow(Due due) {
+        // by SPEED 2 in SLOT 2 OUTPUT 0 has the CELLS of 3 and 4, and the row of 0 has one
+        due.fresh("ports 6;", "cell 1 0;cell 2 0;cell 3 0;cell 4 0;cell 5 0;slot;cell 0 0;slot;cell 0 0;");
+        for (int k = 0; k < 7; k++) {
+            due.mimic(k, k, k, k);
+        }
+    }
+
     @Says(where = "Term 3", words = "at most at the end")
     @Broken(in = "void putInRow", from = "int at = Math.min(ahead, rowSize[i]);", to = "int at = ahead > rowSize[i] ? -1 - from : ahead;")
     static void rowsEndIsTheLastPlace(Due due) {
@@ -199,6 +210,29 @@ final class ShadowSentences {
         due.mimic(4, 3, 3, 3);
         due.mimic(5, 2, 2, 2);
         due.mimic(6, 4, 3, 4);
+    }
+
+    @Says(where = "Term 3", words = "an INPUT keeps of those that ask the one whose CELL is first in its row")
+    @Broken(in = "void takeFromRow", from = "rows[to] = rows[k];", to = "")
+    static void rowIsAsItWasWithoutWhatWent(Due due) {
+        // by SPEED 1 the row of 1 is 6, 4, 3 in SLOT 3, 7, 4, 3 in SLOT 4, the first of which goes; then 4, 3
+        due.fresh("ports 5;", "cell 4 0;cell 0 0;cell 3 0;slot;cell 1 0;slot;cell 1 2;cell 0 2;slot;cell 1 1;slot;cell 1 3;");
+        int[] ideal = {2, 0, 1, 3, 3, 2, 3, 4};
+        int[] once = {2, 0, 1, 6, 5, 2, 3, 4};
+        for (int k = 0; k < 8; k++) {
+            due.mimic(k, ideal[k], once[k], ideal[k]);
+        }
+        due.mimic(-1, 8, 2, 0);
+    }
+
+    @Says(where = "Term 3", words = "LATE: CELLS sent in a later SLOT than IDEAL")
+    @Broken(in = "class Shadow", from = "c < size", to = "c <= size")
+    static void lateOnesOfAnotherTrafficDoNotCount(Due due) {
+        due.fresh("ports 2;", "cell 1 0;cell 0 0;slot;cell 1 1;");
+        due.mimic(-1, 3, 1, 0);
+        due.same("late by SPEED 1", due.house.mimic(0, 0, -1, 1), 1);
+        due.tell(1, 0, "fan 0 1;slot;");
+        due.same("late by SPEED 1 of none", due.house.mimic(0, 0, -1, 1), 0);
     }
 
     @Says(where = "Term 3", words = "LATE: CELLS sent in a later SLOT than IDEAL")

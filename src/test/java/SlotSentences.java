@@ -119,6 +119,25 @@ final class SlotSentences {
         }
     }
 
+    @Says(where = "Term 2", words = "An INPUT has a QUEUE of CELLS for each OUTPUT, and one of FANS, each of DEPTH at most")
+    @Broken(in = "void moveUp", from = "k < from + size", to = "k <= from + size")
+    @Broken(in = "void moveUp", from = "k < from + size", to = "k < from + size - 1")
+    static void lastQueueIsAsDeepAsAll(Due due) {
+        // FANS of 0 hold back what 5 has for OUTPUT 5, till there are as many as may be; then they go in their order
+        due.fresh("ports 6;depth 9;", "fan 0 32;cell 5 5;slot;".repeat(9) + "idle 9;");
+        due.state(27, 155, 9, 2, 0, 3, 0);
+        due.state(28, 155, 0, 3, 9);
+        for (int n = 0; n < 9; n++) {
+            due.cell(2 * n + 1, 5, 32, 0, n, 9 + n, 0);
+        }
+        due.fresh("ports 6;depth 9;", "fan 0 32;fan 5 32;slot;".repeat(9) + "idle 9;");
+        due.state(27, 35, 9, 45, 32, 2, 0, 4, 9);
+        due.state(28, 35, 0, 45, 0, 4, 18);
+        for (int n = 0; n < 9; n++) {
+            due.cell(2 * n + 1, 5, 32, 1, n, 9 + n, 0);
+        }
+    }
+
     @Says(where = "Term 2", words = "CELLS and FANS that come (LOST ones, too) are numbered from 0 on")
     @Broken(in = "boolean takeCell", from = "int number = came.add(", to = "int number = isLost ? NONE : came.add(")
     @Broken(in = "void takeFan", from = "int number = came.add(", to = "int number = isLost ? NONE : came.add(")
@@ -199,11 +218,14 @@ final class SlotSentences {
     @Broken(in = "boolean bring", from = NO_INPUT, to = "first >= ports + (kind == DEED_FAN ? 1 : 0)")
     @Broken(in = "boolean bring", from = NO_INPUT, to = "first >= ports + (kind == DEED_BURST ? 1 : 0)")
     @Broken(in = "boolean bring", from = NO_INPUT, to = "first >= ports - 1")
+    @Broken(in = "boolean bring", from = NO_INPUT, to = "first == ports")
     static void noDeedFromNoInput(Due due) {
         for (int ports = 1; ports <= 5; ports++) {
             for (String deed : new String[] {"cell ", "fan ", "burst "}) {
                 String outputs = deed.equals("cell ") ? " 0;" : " 1;";
-                due.stops("ports " + ports + ";", "slot;" + deed + ports + outputs, 1);
+                for (int input = ports; input <= 5; input++) {
+                    due.stops("ports " + ports + ";", "slot;" + deed + input + outputs, 1);
+                }
                 due.stops("ports " + ports + ";", "slot;" + deed + (ports - 1) + outputs, 2);
             }
         }
